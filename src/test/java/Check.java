@@ -1,0 +1,163 @@
+import java.util.Objects;
+
+/** What the tests share: a desk made from texts, what it shows as a text, and the counting of wrong answers. */
+final class Check {
+    static final String LETTERS = "STPHAOEUFRBG";
+    private static int wrong = 0;
+    private static int right = 0;
+
+    interface Call {
+        void run();
+    }
+
+    private Check() {
+    }
+
+    static void same(String what, Object got, Object due) {
+        if (Objects.equals(got, due)) {
+            right++;
+            return;
+        }
+        wrong++;
+        System.out.println(what + ": answered " + got + ", due is " + due);
+    }
+
+    static void isTrue(String what, boolean holds) {
+        same(what, holds, true);
+    }
+
+    /** The call throws just this exception, and the desk is the same as before, undo and buffer too. */
+    static void fails(String what, ChordDesk desk, Class<? extends RuntimeException> due, Call call) {
+        long before = desk.digest();
+        String shownBefore = show(desk);
+        String got = "nothing";
+        try {
+            call.run();
+        } catch (RuntimeException e) {
+            got = e.getClass().getSimpleName();
+        }
+        same(what + " throws", got, due.getSimpleName());
+        same(what + " changes nothing", desk.digest(), before);
+        same(what + " shows the same", show(desk), shownBefore);
+    }
+
+    static void failsArgument(String what, ChordDesk desk, Call call) {
+        fails(what, desk, IllegalArgumentException.class, call);
+    }
+
+    static void failsState(String what, ChordDesk desk, Call call) {
+        fails(what, desk, IllegalStateException.class, call);
+    }
+
+    static void failsIndex(String what, ChordDesk desk, Call call) {
+        fails(what, desk, IndexOutOfBoundsException.class, call);
+    }
+
+    /** The call changes nothing, whatever it answers. */
+    static void keeps(String what, ChordDesk desk, Call call) {
+        long before = desk.digest();
+        call.run();
+        same(what + " changes nothing", desk.digest(), before);
+    }
+
+    static int keys(String letters) {
+        int keys = 0;
+        for (char letter : letters.toCharArray()) {
+            keys |= 1 << LETTERS.indexOf(letter);
+        }
+        return keys;
+    }
+
+    static void type(ChordDesk desk, String text) {
+        for (char sign : text.toCharArray()) {
+            desk.append(sign);
+        }
+    }
+
+    /** Sets the buffer to a text. */
+    static void write(ChordDesk desk, String text) {
+        desk.clearBuffer();
+        type(desk, text);
+    }
+
+    /** Loads entries, one by one, so that there can be more than a buffer holds. */
+    static void load(ChordDesk desk, String list) {
+        for (String entry : list.split(";")) {
+            write(desk, entry);
+            desk.load();
+        }
+    }
+
+    static ChordDesk deskWith(String list) {
+        ChordDesk desk = new ChordDesk();
+        load(desk, list);
+        return desk;
+    }
+
+    /** Presses strokes that are written with blanks between them. */
+    static void press(ChordDesk desk, String strokes) {
+        for (String letters : strokes.split(" ")) {
+            desk.stroke(keys(letters));
+        }
+    }
+
+    static String itemText(ChordDesk desk, int item) {
+        StringBuilder text = new StringBuilder();
+        int length = desk.item(item, 4);
+        for (int place = 0; place < length; place++) {
+            text.append((char) desk.item(item, 5 + place));
+        }
+        return text.toString();
+    }
+
+    /** The items' texts, fixed ones in brackets, open ones with their entry behind a colon. */
+    static String show(ChordDesk desk) {
+        StringBuilder text = new StringBuilder();
+        for (int item = 0; item < desk.count(1); item++) {
+            if (item > 0) {
+                text.append(' ');
+            }
+            boolean fixed = desk.item(item, 3) == 1;
+            text.append(fixed ? "[" : "").append(itemText(desk, item)).append(fixed ? "]" : "");
+            if (desk.item(item, 2) != -1) {
+                text.append(':').append(desk.item(item, 2));
+            }
+        }
+        return text.toString();
+    }
+
+    /** The dictionary, as a list. */
+    static String list(ChordDesk desk) {
+        StringBuilder text = new StringBuilder();
+        for (int entry = 0; entry < desk.count(4); entry++) {
+            if (entry > 0) {
+                text.append(';');
+            }
+            for (int stroke = 0; stroke < desk.entry(entry, 0); stroke++) {
+                text.append(stroke > 0 ? "/" : "").append(lettersOf(desk.entry(entry, 1 + stroke)));
+            }
+            text.append('=');
+            for (int place = 0; place < desk.entry(entry, 5); place++) {
+                text.append((char) desk.entry(entry, 8 + place));
+            }
+        }
+        return text.toString();
+    }
+
+    static String lettersOf(int keys) {
+        StringBuilder text = new StringBuilder();
+        for (int key = 0; key < LETTERS.length(); key++) {
+            if ((keys & 1 << key) != 0) {
+                text.append(LETTERS.charAt(key));
+            }
+        }
+        return text.toString();
+    }
+
+    static void end(String test) {
+        System.out.println(test + ": " + right + " answers as due, " + wrong + " not");
+        if (wrong != 0 || right == 0) {
+            System.exit(1);
+        }
+    }
+}

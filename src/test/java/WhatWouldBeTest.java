@@ -1,0 +1,245 @@
+/** Promises 18 to 24: ifStroke, ifRemoved, fewestStrokes, readsBack, shortest, lettersPerStroke, digest. */
+public final class WhatWouldBeTest {
+    public static void main(String[] args) {
+        ifStrokeTells();
+        ifStrokeBeyondTheLimit();
+        ifStrokeRefuses();
+        ifRemovedTells();
+        ifRemovedRefuses();
+        fewestStrokesFinds();
+        readsBackTells();
+        readsBackTakesTheLowestNumbers();
+        theLongestText();
+        shortestFinds();
+        shortestRefuses();
+        lettersPerStrokeDivides();
+        digestOfNumbersKnown();
+        digestFollowsTheDocument();
+        Check.end("WhatWouldBeTest");
+    }
+
+    private static void ifStrokeIs(String what, ChordDesk desk, String keys, int[] due) {
+        for (int number = 0; number < 4; number++) {
+            Check.same(what + ", ifStroke(" + keys + ", " + number + ")", desk.ifStroke(Check.keys(keys), number),
+                due[number]);
+        }
+        Check.keeps(what, desk, () -> desk.ifStroke(Check.keys(keys), 0));
+    }
+
+    private static void ifStrokeTells() {
+        ChordDesk desk = Check.deskWith("S/T=abcd;S/T/P=x;P=yy");
+        ifStrokeIs("without strokes", desk, "P", new int[] {1, 0, 2, 1});
+        Check.press(desk, "H S T");
+        ifStrokeIs("a longer match", desk, "P", new int[] {2, 0, 2, 3});
+        ifStrokeIs("no match", desk, "STPHAOEUFRBG", new int[] {3, 0, 17, 1});
+        desk.setWindow(3);
+        ifStrokeIs("one becomes fixed", desk, "P", new int[] {2, 1, 2, 3});
+        desk.setWindow(2);
+        Check.same("items", Check.show(desk), "[H] abcd:0");
+        ifStrokeIs("the match is fixed whole", desk, "P", new int[] {2, 2, 2, 3});
+        desk.setWindow(0);
+        ifStrokeIs("with no window", desk, "P", new int[] {3, 3, 7, 1});
+    }
+
+    private static void ifStrokeBeyondTheLimit() {
+        ChordDesk desk = Check.deskWith("S/T=abc");
+        for (int stroke = 0; stroke < 60; stroke++) {
+            desk.stroke(1);
+        }
+        ifStrokeIs("with 60 strokes", desk, "T", new int[] {60, 53, 62, 2});
+        ifStrokeIs("with 60 strokes", desk, "SP", new int[] {61, 53, 62, 1});
+    }
+
+    private static void ifStrokeRefuses() {
+        ChordDesk desk = Check.deskWith("S=a");
+        desk.stroke(1);
+        for (int keys : new int[] {0, -1, 4096, Integer.MIN_VALUE, Integer.MAX_VALUE}) {
+            Check.failsArgument("ifStroke(" + keys + ", 0)", desk, () -> desk.ifStroke(keys, 0));
+        }
+        for (int what : new int[] {-1, 4, Integer.MIN_VALUE, Integer.MAX_VALUE}) {
+            Check.failsArgument("ifStroke(1, " + what + ")", desk, () -> desk.ifStroke(1, what));
+        }
+    }
+
+    private static void ifRemovedTells() {
+        ChordDesk desk = Check.deskWith("S/T/P=a;S/T=b;T/P/H=c;P=d");
+        Check.press(desk, "S T P");
+        desk.fixAll();
+        Check.press(desk, "S T P H");
+        Check.same("items", Check.show(desk), "[a] a:0 H");
+        int[] due = {3, 2, 2, 2};
+        for (int entry = 0; entry < due.length; entry++) {
+            int number = entry;
+            Check.same("ifRemoved(" + entry + ")", desk.ifRemoved(entry), due[entry]);
+            Check.keeps("ifRemoved(" + entry + ")", desk, () -> desk.ifRemoved(number));
+        }
+        desk.removeEntry(1);
+        Check.same("without S/T the parts join otherwise", desk.ifRemoved(0), 2);
+        Check.same("and would be", Check.show(desk), "[a] a:0 H");
+        desk.fixAll();
+        Check.same("without open items", desk.ifRemoved(0), 0);
+    }
+
+    private static void ifRemovedRefuses() {
+        ChordDesk desk = Check.deskWith("S=a;T=b");
+        for (int entry : new int[] {-1, 2, Integer.MIN_VALUE, Integer.MAX_VALUE}) {
+            Check.failsIndex("ifRemoved(" + entry + ")", desk, () -> desk.ifRemoved(entry));
+        }
+        ChordDesk empty = new ChordDesk();
+        Check.failsIndex("ifRemoved(0) of nothing", empty, () -> empty.ifRemoved(0));
+    }
+
+    private static void fewestIs(String list, String text, int due) {
+        ChordDesk desk = Check.deskWith(list);
+        Check.write(desk, text);
+        Check.same("fewestStrokes of " + text + " with " + list, desk.fewestStrokes(), due);
+        Check.keeps("fewestStrokes of " + text, desk, desk::fewestStrokes);
+    }
+
+    private static void fewestStrokesFinds() {
+        fewestIs("S=a", "", 0);
+        fewestIs("S=a", "a", 1);
+        fewestIs("S=a", "aaa", 3);
+        fewestIs("S=a", "ab", -1);
+        fewestIs("S=a", "ba", -1);
+        fewestIs("S=a", "A", -1);
+        fewestIs("S=a", "S", -1);
+        fewestIs("S=ab", "a", -1);
+        fewestIs("S=ab", "aba", -1);
+        fewestIs("S/T/P/H=a;T=ab;P=b", "ab", 1);
+        fewestIs("S/T/P/H=ab;T=a;P=b", "ab", 2);
+        fewestIs("S/T=a;T=aa;P=b", "aaab", 4);
+        fewestIs("S/T=a;T=aa;P=ab", "aaab", 2);
+        fewestIs("S/T/P/H=a;S/T=a", "aa", 4);
+        fewestIs("T=aa;S=aaa", "aaaaa", 2);
+        fewestIs("T=aa;S=aaa", "aaaaaaa", 3);
+        fewestIs("S=abcdefgh;T=abcdefg;P=h", "abcdefghabcdefg", 2);
+        fewestIs("S=a;T=b", "a;b", -1);
+        ChordDesk empty = new ChordDesk();
+        Check.same("an empty buffer without entries", empty.fewestStrokes(), 0);
+        empty.append('a');
+        Check.same("without entries", empty.fewestStrokes(), ChordDesk.NONE);
+    }
+
+    private static void readsBackIs(String list, String text, int due) {
+        ChordDesk desk = Check.deskWith(list);
+        desk.setWindow(0);
+        Check.write(desk, text);
+        Check.same("readsBack of " + text + " with " + list, desk.readsBack(), due);
+        Check.keeps("readsBack of " + text, desk, desk::readsBack);
+    }
+
+    private static void readsBackTells() {
+        readsBackIs("S=a", "", 1);
+        readsBackIs("S=a", "b", -1);
+        readsBackIs("S=a", "S", -1);
+        readsBackIs("S=a;T=b", "abab", 1);
+        readsBackIs("S=a;T=b;S/T=ab", "ab", 1);
+        readsBackIs("S=a;T=b;S/T=x", "ab", 0);
+        readsBackIs("S=a;T=b;S/T=x", "ba", 1);
+        readsBackIs("S=a;T=b;S/T=a", "ab", 0);
+        readsBackIs("S=a;T=b;S/T=abc", "ab", 0);
+        readsBackIs("S=a;T=b;S/T=abc;P=c", "abc", 1);
+        readsBackIs("S=a;T=b;S/T/P=x;P=d", "ab", 1);
+        readsBackIs("S/T=a;P=b;S/T/P=ab;T=x", "ab", 1);
+        readsBackIs("S/T=a;P/H=b;S/T/P=y", "ab", 0);
+        readsBackIs("S/T=a;P/H=b;S/T/P=y;H=z", "ab", 0);
+        readsBackIs("S/T=ab;P=c;S/T/P=a;H=d", "abc", 0);
+        readsBackIs("S=a;T=b;P=c;S/T=ab;P/S=ca", "abcab", 1);
+        readsBackIs("S=a;T=aa;S/T=aaa;T/S=aaa", "aaaa", 1);
+    }
+
+    private static void readsBackTakesTheLowestNumbers() {
+        // Both S and T write "a"; S is followed by P in an outline of its own, T is not.
+        readsBackIs("S=a;T=a;P=b;S/P=x", "ab", 0);
+        readsBackIs("T=a;S=a;P=b;S/P=x", "ab", 1);
+        // "aab" is 0 2 or 1 3 with two strokes each; the first entry decides.
+        readsBackIs("S=a;T=aa;P=ab;H=b;S/P=x", "aab", 0);
+        readsBackIs("T=aa;S=a;P=ab;H=b;S/P=x", "aab", 1);
+        readsBackIs("S=a;T=aa;P=ab;H=b;T/H=x", "aab", 1);
+        // The fewest strokes come before the lowest numbers.
+        readsBackIs("S/T=a;T=a;P=b;S/T/P=x", "ab", 1);
+        // The second entry decides among ways that begin alike.
+        readsBackIs("S=a;T=b;P=b;S/T=x", "ab", 0);
+        readsBackIs("S=a;P=b;T=b;S/T=x", "ab", 1);
+    }
+
+    private static void theLongestText() {
+        ChordDesk desk = Check.deskWith("S/T/P/H=a");
+        Check.write(desk, "a".repeat(60));
+        Check.same("60 letters of four strokes", desk.fewestStrokes(), 240);
+        Check.same("are read back", desk.readsBack(), 1);
+        Check.load(desk, "H/S=b");
+        Check.write(desk, "a".repeat(60));
+        Check.same("they are read from the left", desk.readsBack(), 1);
+        Check.load(desk, "A/O/E/U=c;U/S/T/P=d;H/A=e;A/O/E=f");
+        Check.write(desk, "ca".repeat(30));
+        Check.same("no match goes over", desk.readsBack(), 1);
+        Check.same("the fewest strokes", desk.fewestStrokes(), 240);
+    }
+
+    private static void shortestFinds() {
+        ChordDesk desk = Check.deskWith("S/T=a;STPHAOEUFRBG=a;ST=b;P=a;T=a;S=b;S/P=c;HA/T=c;G/O=c;S/T/P=d;ST/PH=d");
+        int[] due = {3, 3, 5, 3, 3, 5, 6, 6, 6, 10, 10};
+        for (int entry = 0; entry < due.length; entry++) {
+            int number = entry;
+            Check.same("shortest(" + entry + ")", desk.shortest(entry), due[entry]);
+            Check.keeps("shortest(" + entry + ")", desk, () -> desk.shortest(number));
+        }
+        ChordDesk keys = Check.deskWith("STP/H=a;S/TPH=a;ST/P=a;P/ST=a");
+        Check.same("the fewest keys together", keys.shortest(0), 2);
+        Check.same("of several the lowest number", keys.shortest(3), 2);
+    }
+
+    private static void shortestRefuses() {
+        ChordDesk desk = Check.deskWith("S=a;T=b");
+        for (int entry : new int[] {-1, 2, Integer.MIN_VALUE, Integer.MAX_VALUE}) {
+            Check.failsIndex("shortest(" + entry + ")", desk, () -> desk.shortest(entry));
+        }
+        ChordDesk empty = new ChordDesk();
+        Check.failsIndex("shortest(0) of nothing", empty, () -> empty.shortest(0));
+    }
+
+    private static void lettersPerStrokeDivides() {
+        ChordDesk desk = Check.deskWith("S=abcdefgh;S/T=a;S/T/P=ab;S/T/P/H=c");
+        Check.same("without strokes", desk.lettersPerStroke(), 0.0);
+        desk.stroke(1);
+        Check.same("eight letters", desk.lettersPerStroke(), 8.0);
+        desk.stroke(2);
+        Check.same("one of two", desk.lettersPerStroke(), 0.5);
+        desk.stroke(4);
+        Check.same("two of three", desk.lettersPerStroke(), 2.0 / 3.0);
+        desk.stroke(8);
+        Check.same("one of four", desk.lettersPerStroke(), 0.25);
+        desk.fixAll();
+        desk.stroke(4095);
+        Check.same("fixed ones count too", desk.lettersPerStroke(), 13.0 / 5.0);
+    }
+
+    /** Numbers computed by hand, outside Java, from the document's words. */
+    private static void digestOfNumbersKnown() {
+        Check.same("digest of a new desk", new ChordDesk().digest(), NEW_DIGEST);
+        ChordDesk desk = new ChordDesk();
+        desk.stroke(5);
+        desk.append('a');
+        Check.same("digest after stroke(5), append(97)", desk.digest(), STROKE_DIGEST);
+    }
+
+    private static final long NEW_DIGEST = -8434513455649893962L;
+    private static final long STROKE_DIGEST = -5446214956486652112L;
+
+    private static void digestFollowsTheDocument() {
+        ChordDesk desk = Check.deskWith("S=abc;S/T=de;P=abc;STPHAOEUFRBG/G=abcdefgh");
+        Check.same("digest with entries", desk.digest(), PlainDesk.digestOf(desk, ""));
+        String strokes = "S T P HA G S S T STPHAOEUFRBG G T T P";
+        for (String stroke : strokes.split(" ")) {
+            Check.press(desk, stroke);
+            Check.same("digest after " + stroke, desk.digest(), PlainDesk.digestOf(desk, ""));
+        }
+        for (String text : new String[] {"abcde", "abcdx", "~!", "abcdefghabc"}) {
+            Check.write(desk, text);
+            Check.same("digest with " + text, desk.digest(), PlainDesk.digestOf(desk, text));
+            Check.keeps("digest with " + text, desk, desk::digest);
+        }
+    }
+}
