@@ -4,8 +4,11 @@ import java.util.function.LongSupplier;
 public final class AgainstPlainDeskTest {
     private static final int RUNS = 300;
     private static final int CALLS = 512;
+    /** How many entries a run of each style tries to begin with. */
+    private static final int[] STARTS = {0, 12, 26, 4};
     private static final String[] OUTLINES = {"S", "T", "P", "ST", "S/T", "T/S", "S/S", "S/T/P", "T/P", "P/S/T", "S/T/P/S",
-        "STP", "T/T/T/T", "ST/P", "P/P", "S/P/S", "STPHAOEUFRBG", "T/P/T", "ST/ST", "P/T"};
+        "STP", "T/T/T/T", "ST/P", "P/P", "S/P/S", "STPHAOEUFRBG", "T/P/T", "ST/ST", "P/T",
+        "P", "SP", "TP", "T/T", "P/S", "S/P", "T/S/P"};
     private static final String[] WORDS = {"a", "b", "ab", "ba", "aa", "aab", "abc", "c", "abcdefgh", "st", "s"};
     private static final String SPICE = "STPHAOEUFRBG/=;abz~!";
 
@@ -47,6 +50,9 @@ public final class AgainstPlainDeskTest {
     }
 
     private void go() {
+        for (int entry = 0; entry < STARTS[style]; entry++) {
+            loadOne(OUTLINES[(entry * 7 + style) % OUTLINES.length] + "=" + WORDS[below(WORDS.length)]);
+        }
         while (calls < CALLS) {
             step();
             if (below(4) == 0) {
@@ -59,7 +65,7 @@ public final class AgainstPlainDeskTest {
     private void step() {
         switch (below(style == 3 ? 16 : 12)) {
             case 0: case 1: case 2: pressSome(); break;
-            case 3: same("takeBack", desk::takeBack, plain::takeBack); break;
+            case 3: takeBackSome(); break;
             case 4: changeWindow(); break;
             case 5: changeDictionary(); break;
             case 6: loadSome(); break;
@@ -85,6 +91,13 @@ public final class AgainstPlainDeskTest {
         for (int i = 0; i < strokes; i++) {
             int keys = someKeys();
             same("stroke(" + keys + ")", () -> desk.stroke(keys), () -> plain.stroke(keys));
+        }
+    }
+
+    private void takeBackSome() {
+        int strokes = 1 + below(desk.count(0) > 40 ? 30 : 3);
+        for (int i = 0; i < strokes; i++) {
+            same("takeBack", desk::takeBack, plain::takeBack);
         }
     }
 
@@ -134,6 +147,12 @@ public final class AgainstPlainDeskTest {
         return OUTLINES[below(OUTLINES.length)] + "=" + WORDS[below(WORDS.length)];
     }
 
+    private void loadOne(String entry) {
+        type(entry);
+        same("load", desk::load, plain::load);
+        same("clearBuffer", desk::clearBuffer, plain::clearBuffer);
+    }
+
     private void loadSome() {
         if (below(5) != 0) {
             same("clearBuffer", desk::clearBuffer, plain::clearBuffer);
@@ -151,12 +170,18 @@ public final class AgainstPlainDeskTest {
 
     private void writeSome() {
         same("clearBuffer", desk::clearBuffer, plain::clearBuffer);
-        int words = below(5);
+        int words = below(7);
         for (int i = 0; i < words; i++) {
-            type(WORDS[below(WORDS.length)]);
+            type(below(12) == 0 || desk.count(4) == 0 ? WORDS[below(WORDS.length)] : wordOf(below(desk.count(4))));
         }
         same("fewestStrokes", desk::fewestStrokes, plain::fewestStrokes);
         same("readsBack", desk::readsBack, plain::readsBack);
+    }
+
+    private String wordOf(int entry) {
+        String list = Check.list(desk);
+        String text = list.split(";")[entry];
+        return text.substring(text.indexOf('=') + 1);
     }
 
     private void spoilBuffer() {

@@ -115,6 +115,14 @@ public final class WhatWouldBeTest {
         fewestIs("T=aa;S=aaa", "aaaaaaa", 3);
         fewestIs("S=abcdefgh;T=abcdefg;P=h", "abcdefghabcdefg", 2);
         fewestIs("S=a;T=b", "a;b", -1);
+        ChordDesk desk = Check.deskWith("S/T=ab;P=c;H=b");
+        String[] texts = {"ababc", "abab", "xab", "ab", "a", "cabc", "", "b", "cb"};
+        int[] due = {5, 4, -1, 2, -1, 4, 0, 1, 2};
+        for (int text = 0; text < texts.length; text++) {
+            Check.write(desk, texts[text]);
+            Check.same("fewestStrokes of one text after another, " + texts[text], desk.fewestStrokes(), due[text]);
+            Check.same("read back", desk.readsBack(), due[text] < 0 ? -1 : 1);
+        }
         ChordDesk empty = new ChordDesk();
         Check.same("an empty buffer without entries", empty.fewestStrokes(), 0);
         empty.append('a');
@@ -186,6 +194,10 @@ public final class WhatWouldBeTest {
             Check.same("shortest(" + entry + ")", desk.shortest(entry), due[entry]);
             Check.keeps("shortest(" + entry + ")", desk, () -> desk.shortest(number));
         }
+        ChordDesk first = Check.deskWith("S=a;T=a;S/T=a");
+        for (int entry = 0; entry < 3; entry++) {
+            Check.same("shortest(" + entry + ") where the first is it", first.shortest(entry), 0);
+        }
         ChordDesk keys = Check.deskWith("STP/H=a;S/TPH=a;ST/P=a;P/ST=a");
         Check.same("the fewest keys together", keys.shortest(0), 2);
         Check.same("of several the lowest number", keys.shortest(3), 2);
@@ -236,10 +248,24 @@ public final class WhatWouldBeTest {
             Check.press(desk, stroke);
             Check.same("digest after " + stroke, desk.digest(), PlainDesk.digestOf(desk, ""));
         }
+        digestOfLettersPerStroke();
         for (String text : new String[] {"abcde", "abcdx", "~!", "abcdefghabc"}) {
             Check.write(desk, text);
             Check.same("digest with " + text, desk.digest(), PlainDesk.digestOf(desk, text));
             Check.keeps("digest with " + text, desk, desk::digest);
+        }
+    }
+
+    /** The digest has the bits of a double: below 1, at 1 and between, a power of two, and behind it. */
+    private static void digestOfLettersPerStroke() {
+        ChordDesk desk = Check.deskWith("S/S/S/S=a;T/T/T=a;P/P=a;A/A/A=ab;O/O/O/O=abc;E/E=abc");
+        for (String strokes : new String[] {"S S S S", "T T T", "P P", "A A A", "O O O O", "H", "E E", "ST", "STP", "STPH",
+            "STPHAOEUFRB", "STPHAOEUFRBG"}) {
+            Check.press(desk, strokes);
+            Check.same("digest after " + strokes, desk.digest(), PlainDesk.digestOf(desk, ""));
+            ChordDesk alone = Check.deskWith(Check.list(desk));
+            Check.press(alone, strokes);
+            Check.same("digest of " + strokes, alone.digest(), PlainDesk.digestOf(alone, ""));
         }
     }
 }
