@@ -1,4 +1,5 @@
 import java.util.Objects;
+import java.util.function.Supplier;
 
 /** What the tests share: a desk made from texts, what it shows as a text, and the counting of wrong answers. */
 final class Check {
@@ -7,7 +8,7 @@ final class Check {
     private static int right = 0;
 
     interface Call {
-        void run();
+        Object on(ChordDesk desk);
     }
 
     private Check() {
@@ -26,38 +27,43 @@ final class Check {
         same(what, holds, true);
     }
 
-    /** The call throws just this exception, and the desk is the same as before, undo and buffer too. */
-    static void fails(String what, ChordDesk desk, Class<? extends RuntimeException> due, Call call) {
-        long before = desk.digest();
-        String shownBefore = show(desk);
-        String got = "nothing";
+    /** What a call answers, or which exception it throws. */
+    static String answer(ChordDesk desk, Call call) {
         try {
-            call.run();
+            return String.valueOf(call.on(desk));
         } catch (RuntimeException e) {
-            got = e.getClass().getSimpleName();
+            return "throws." + e.getClass().getSimpleName();
         }
-        same(what + " throws", got, due.getSimpleName());
-        same(what + " changes nothing", desk.digest(), before);
-        same(what + " shows the same", show(desk), shownBefore);
     }
 
-    static void failsArgument(String what, ChordDesk desk, Call call) {
-        fails(what, desk, IllegalArgumentException.class, call);
+    /** The call throws just this exception; what it leaves is not looked at. */
+    static void refused(String what, ChordDesk desk, String due, Call call) {
+        same(what, answer(desk, call), "throws." + due);
     }
 
-    static void failsState(String what, ChordDesk desk, Call call) {
-        fails(what, desk, IllegalStateException.class, call);
+    /** The call throws just this exception and changes nothing, as a desk made alike without the call shows. */
+    static void fails(String what, Supplier<ChordDesk> recipe, String due, Call call) {
+        refused(what, recipe.get(), due, call);
+        keeps(what, recipe, call);
     }
 
-    static void failsIndex(String what, ChordDesk desk, Call call) {
-        fails(what, desk, IndexOutOfBoundsException.class, call);
+    /** The call changes nothing, whatever it answers or throws. */
+    static void keeps(String what, Supplier<ChordDesk> recipe, Call call) {
+        sameWhole(what + " changes nothing", () -> after(recipe, call), recipe);
     }
 
-    /** The call changes nothing, whatever it answers. */
-    static void keeps(String what, ChordDesk desk, Call call) {
-        long before = desk.digest();
-        call.run();
-        same(what + " changes nothing", desk.digest(), before);
+    /** Two desks show the same in all that they show. */
+    static void sameWhole(String what, Supplier<ChordDesk> got, Supplier<ChordDesk> due) {
+        for (Whole.Part part : Whole.PARTS) {
+            same(what + ", " + part.name(), part.shows().apply(got.get()), part.shows().apply(due.get()));
+        }
+    }
+
+    /** A desk after a call more. */
+    static ChordDesk after(Supplier<ChordDesk> recipe, Call call) {
+        ChordDesk desk = recipe.get();
+        answer(desk, call);
+        return desk;
     }
 
     static int keys(String letters) {

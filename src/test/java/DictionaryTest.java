@@ -1,18 +1,11 @@
 /** Promises 6 to 8: removeEntry, renameEntry, learn. */
 public final class DictionaryTest {
-    private static final String FULL = "S=a;T=b;P=c;H=d;A=e;O=f;E=g;U=h;F=i;R=j;B=k;G=l;"
-            + "ST=m;SP=n;SH=o;SA=p;SO=q;SE=r;SU=s;SF=t;SR=u;SB=v;SG=w";
-
     public static void main(String[] args) {
         removeEntryRemoves();
-        removeEntryRefuses();
         renameEntryRenames();
-        renameEntryRefuses();
         learnMakesAnEntry();
         learnWritesSmallLettersUpToEight();
         learnFromFixedItems();
-        learnRefuses();
-        learnRefusesInOrder();
         Check.end("DictionaryTest");
     }
 
@@ -33,13 +26,6 @@ public final class DictionaryTest {
         Check.same("the items too", Check.show(desk), "b:1 c:2");
     }
 
-    private static void removeEntryRefuses() {
-        ChordDesk desk = Check.deskWith("S=a;T=b");
-        for (int entry : new int[] {-1, 2, Integer.MIN_VALUE, Integer.MAX_VALUE}) {
-            Check.failsIndex("removeEntry(" + entry + ")", desk, () -> desk.removeEntry(entry));
-        }
-    }
-
     private static void renameEntryRenames() {
         ChordDesk desk = Check.deskWith("S=a;T=bc;P=a");
         Check.press(desk, "S S");
@@ -56,15 +42,6 @@ public final class DictionaryTest {
         desk.undo();
         Check.same("renameEntry is undoable", Check.list(desk), "S=bc;T=bc;P=a");
         Check.same("without items of it", Check.deskWith("S=a;T=b").renameEntry(0, 1), 0);
-    }
-
-    private static void renameEntryRefuses() {
-        ChordDesk desk = Check.deskWith("S=a;T=b");
-        Check.press(desk, "S T");
-        for (int entry : new int[] {-1, 2, Integer.MIN_VALUE, Integer.MAX_VALUE}) {
-            Check.failsIndex("renameEntry(" + entry + ", 0)", desk, () -> desk.renameEntry(entry, 0));
-            Check.failsIndex("renameEntry(0, " + entry + ")", desk, () -> desk.renameEntry(0, entry));
-        }
     }
 
     private static void learnMakesAnEntry() {
@@ -113,35 +90,5 @@ public final class DictionaryTest {
         Check.same("a fixed and an open item", desk.learn(1, 2), 1);
         Check.same("joined", Check.list(desk), "S/T=xyt;T/S/T=txyt");
         Check.same("a fixed stroke joins no open ones", Check.show(desk), "[xy] [T] xyt:0");
-    }
-
-    private static void learnRefuses() {
-        ChordDesk desk = Check.deskWith("S/T=a;P=c");
-        Check.press(desk, "S T S T P P");
-        Check.same("before", Check.show(desk), "a:0 a:0 c:1 c:1");
-        for (int item : new int[] {-1, 4, Integer.MIN_VALUE, Integer.MAX_VALUE}) {
-            Check.failsIndex("learn(" + item + ", 3)", desk, () -> desk.learn(item, 3));
-            Check.failsIndex("learn(0, " + item + ")", desk, () -> desk.learn(0, item));
-        }
-        Check.failsArgument("learn with from behind to", desk, () -> desk.learn(1, 0));
-        Check.failsArgument("learn of five strokes", desk, () -> desk.learn(0, 2));
-        Check.failsArgument("learn of six strokes", desk, () -> desk.learn(0, 3));
-        Check.failsState("learn of an outline that is there", desk, () -> desk.learn(0, 0));
-        Check.same("four strokes are not too many", desk.learn(0, 1), 2);
-        ChordDesk full = Check.deskWith(FULL);
-        Check.press(full, "S T");
-        Check.same("the 24th entry", full.learn(0, 1), 23);
-        Check.press(full, "P");
-        Check.failsState("the 25th entry", full, () -> full.learn(0, 1));
-    }
-
-    private static void learnRefusesInOrder() {
-        ChordDesk desk = Check.deskWith(FULL + ";ST/S=x");
-        Check.press(desk, "S T P H A O");
-        Check.failsIndex("no item, and from behind to", desk, () -> desk.learn(6, 0));
-        Check.failsIndex("no item, and too many strokes", desk, () -> desk.learn(0, 6));
-        Check.failsArgument("from behind to, and full", desk, () -> desk.learn(1, 0));
-        Check.failsArgument("too many strokes, and full", desk, () -> desk.learn(0, 4));
-        Check.failsState("full", desk, () -> desk.learn(0, 1));
     }
 }

@@ -2,6 +2,7 @@ import java.util.ArrayDeque;
 import java.util.ArrayList;
 import java.util.Deque;
 import java.util.List;
+import java.util.regex.Pattern;
 
 /**
  * The document once more, written the slow way with texts and lists and nothing of ChordDesk's own ways,
@@ -206,6 +207,11 @@ final class PlainDesk {
             && dictionary.stream().map(Entry::outline).distinct().count() == dictionary.size();
     }
 
+    /** The word of an entry, for runs that write with the dictionary's words. */
+    String wordOf(int number) {
+        return entryAt(number).word;
+    }
+
     int append(int code) {
         if (code < 33 || code > 126) {
             throw new IllegalArgumentException();
@@ -225,11 +231,11 @@ final class PlainDesk {
 
     private static final String STROKE = "(?=[A-Z])S?T?P?H?A?O?E?U?F?R?B?G?";
     private static final String ENTRY = STROKE + "(/" + STROKE + "){0,3}=[a-z]{1,8}";
-    private static final String WHOLE = ENTRY + "(;" + ENTRY + ")*";
+    private static final Pattern WHOLE = Pattern.compile(ENTRY + "(;" + ENTRY + ")*");
     private static final String[] ENDINGS = {"", "S", "=a", "S=a", "a"};
 
     private static boolean isList(String text) {
-        return text.matches(WHOLE);
+        return WHOLE.matcher(text).matches();
     }
 
     /** A beginning of a list becomes a list by one of a few endings. */
@@ -281,18 +287,22 @@ final class PlainDesk {
     }
 
     int strokeAt(int number, int what) {
-        if (number < 0 || number >= now.strokes().size()) {
+        return pick(strokeValues(number), what);
+    }
+
+    private List<Integer> strokeValues(int number) {
+        List<Integer> strokes = now.strokes();
+        if (number < 0 || number >= strokes.size()) {
             throw new IndexOutOfBoundsException();
         }
-        int keys = now.strokes().get(number);
-        List<Integer> values = new ArrayList<>(List.of(keys, lettersOf(keys).length()));
-        for (int item = 0; item < now.items().size(); item++) {
-            if (strokesOf(now.items().subList(0, item + 1)).size() > number) {
-                values.add(item);
-                break;
-            }
+        int keys = strokes.get(number);
+        int item = 0;
+        int end = 0;
+        for (Item one : now.items()) {
+            end += one.strokes.size();
+            item += end <= number ? 1 : 0;
         }
-        return pick(values, what);
+        return List.of(keys, lettersOf(keys).length(), item);
     }
 
     private static int pick(List<Integer> values, int what) {
@@ -303,21 +313,30 @@ final class PlainDesk {
     }
 
     int item(int number, int what) {
-        if (number < 0 || number >= now.items().size()) {
+        return pick(itemValues(number), what);
+    }
+
+    private List<Integer> itemValues(int number) {
+        List<Item> items = now.items();
+        if (number < 0 || number >= items.size()) {
             throw new IndexOutOfBoundsException();
         }
-        Item item = now.items().get(number);
+        Item item = items.get(number);
         List<Integer> values = new ArrayList<>();
-        values.add(strokesOf(now.items().subList(0, number)).size());
+        values.add(strokesOf(items.subList(0, number)).size());
         values.add(item.strokes.size());
         values.add(item.entry == null ? -1 : now.dictionary.indexOf(item.entry));
         values.add(number < now.fixed.size() ? 1 : 0);
         values.add(item.text.length());
         item.text.chars().forEach(values::add);
-        return pick(values, what);
+        return values;
     }
 
     int entry(int number, int what) {
+        return pick(entryValues(number), what);
+    }
+
+    private List<Integer> entryValues(int number) {
         Entry entry = entryAt(number);
         List<Integer> values = new ArrayList<>();
         values.add(entry.outline.size());
@@ -330,7 +349,7 @@ final class PlainDesk {
         for (int place = 0; place < 8; place++) {
             values.add(place < entry.word.length() ? entry.word.charAt(place) : -1);
         }
-        return pick(values, what);
+        return values;
     }
 
     private int clashOf(Entry entry) {
@@ -340,7 +359,8 @@ final class PlainDesk {
                 clash = Math.min(clash, 1);
             }
             for (Entry two : now.dictionary) {
-                if (joined(one.outline, two.outline).equals(entry.outline)) {
+                if (begins(entry.outline, one.outline)
+                    && entry.outline.subList(one.outline.size(), entry.outline.size()).equals(two.outline)) {
                     clash = Math.min(clash, 2);
                 }
             }
@@ -451,28 +471,26 @@ final class PlainDesk {
     }
 
     long digest() {
-        List<Long> values = new ArrayList<>();
+        List<Integer> numbers = new ArrayList<>();
         for (int what = 0; what < 10; what++) {
-            values.add((long) count(what));
+            numbers.add(count(what));
         }
-        for (int number = 0; number < now.strokes().size(); number++) {
-            for (int what = 0; what < 3; what++) {
-                values.add((long) strokeAt(number, what));
-            }
+        int strokes = now.strokes().size();
+        for (int number = 0; number < strokes; number++) {
+            numbers.addAll(strokeValues(number));
         }
-        for (int item = 0; item < now.items().size(); item++) {
-            for (int what = 0; what < 5 + now.items().get(item).text.length(); what++) {
-                values.add((long) item(item, what));
-            }
+        int items = now.items().size();
+        for (int item = 0; item < items; item++) {
+            numbers.addAll(itemValues(item));
         }
         for (int entry = 0; entry < now.dictionary.size(); entry++) {
-            for (int what = 0; what < 16; what++) {
-                values.add((long) entry(entry, what));
-            }
-            values.add((long) shortest(entry));
+            numbers.addAll(entryValues(entry));
+            numbers.add(shortest(entry));
         }
-        values.add((long) fewestStrokes());
-        values.add((long) readsBack());
+        numbers.add(fewestStrokes());
+        numbers.add(readsBack());
+        List<Long> values = new ArrayList<>();
+        numbers.forEach(number -> values.add((long) number));
         values.add(Double.doubleToLongBits(lettersPerStroke()));
         values.add((long) buffer.length());
         buffer.chars().forEach(code -> values.add((long) code));
@@ -485,35 +503,5 @@ final class PlainDesk {
             hash = 31 * hash + value;
         }
         return hash;
-    }
-
-    /** The digest that is due for what a desk's own calls tell. */
-    static long digestOf(ChordDesk desk, String buffer) {
-        List<Long> values = new ArrayList<>();
-        for (int what = 0; what < 10; what++) {
-            values.add((long) desk.count(what));
-        }
-        for (int number = 0; number < desk.count(0); number++) {
-            for (int what = 0; what < 3; what++) {
-                values.add((long) desk.strokeAt(number, what));
-            }
-        }
-        for (int item = 0; item < desk.count(1); item++) {
-            for (int what = 0; what < 5 + desk.item(item, 4); what++) {
-                values.add((long) desk.item(item, what));
-            }
-        }
-        for (int entry = 0; entry < desk.count(4); entry++) {
-            for (int what = 0; what < 16; what++) {
-                values.add((long) desk.entry(entry, what));
-            }
-            values.add((long) desk.shortest(entry));
-        }
-        values.add((long) desk.fewestStrokes());
-        values.add((long) desk.readsBack());
-        values.add(Double.doubleToLongBits(desk.lettersPerStroke()));
-        values.add((long) buffer.length());
-        buffer.chars().forEach(code -> values.add((long) code));
-        return hashOf(values);
     }
 }

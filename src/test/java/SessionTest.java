@@ -5,15 +5,11 @@ public final class SessionTest {
         strokeAddsAndTranslates();
         longestMatchFromTheLeft();
         strokesBecomeFixedBehindTheWindow();
-        strokeRefuses();
-        sixtyStrokes();
         takeBackOpensWords();
         takeBackFixesAgain();
-        takeBackRefuses();
         fixAllFixes();
         fixedItemsKeepTheirTexts();
         setWindowFixes();
-        setWindowRefuses();
         Check.end("SessionTest");
     }
 
@@ -86,25 +82,6 @@ public final class SessionTest {
         Check.same("a window of 0 fixes at once", Check.show(none), "[S] [T] [c]");
     }
 
-    private static void strokeRefuses() {
-        ChordDesk desk = Check.deskWith("S=a");
-        Check.press(desk, "S T");
-        for (int keys : new int[] {0, -1, 4096, Integer.MIN_VALUE, Integer.MAX_VALUE}) {
-            Check.failsArgument("stroke(" + keys + ")", desk, () -> desk.stroke(keys));
-        }
-    }
-
-    private static void sixtyStrokes() {
-        ChordDesk desk = new ChordDesk();
-        for (int stroke = 0; stroke < 60; stroke++) {
-            Check.same("stroke " + stroke, desk.stroke(stroke + 1), stroke + 1);
-        }
-        Check.failsState("the 61st stroke", desk, () -> desk.stroke(1));
-        Check.failsArgument("keys out of range come first", desk, () -> desk.stroke(0));
-        desk.takeBack();
-        Check.same("a stroke after one was taken back", desk.stroke(7), 60);
-    }
-
     private static void takeBackOpensWords() {
         ChordDesk desk = Check.deskWith("S=a;S/T=b;S/T/P=c");
         Check.press(desk, "H S T P");
@@ -147,14 +124,6 @@ public final class SessionTest {
         Check.same("an item of one stroke goes, the others stay fixed", Check.show(changed), "[b]");
         changed.takeBack();
         Check.same("an opened item takes the dictionary of now", Check.show(changed), "a:1");
-    }
-
-    private static void takeBackRefuses() {
-        ChordDesk desk = Check.deskWith("S=a");
-        Check.failsState("takeBack without strokes", desk, desk::takeBack);
-        desk.stroke(1);
-        desk.takeBack();
-        Check.failsState("takeBack of more than there were", desk, desk::takeBack);
     }
 
     private static void fixAllFixes() {
@@ -206,13 +175,5 @@ public final class SessionTest {
             wide.stroke(1);
         }
         Check.same("a window of thirty", wide.count(3), 30);
-    }
-
-    private static void setWindowRefuses() {
-        ChordDesk desk = new ChordDesk();
-        Check.press(desk, "S T");
-        for (int window : new int[] {-1, 31, Integer.MIN_VALUE, Integer.MAX_VALUE}) {
-            Check.failsArgument("setWindow(" + window + ")", desk, () -> desk.setWindow(window));
-        }
     }
 }

@@ -2,15 +2,12 @@
 public final class TextsTest {
     public static void main(String[] args) {
         appendAppends();
-        appendRefuses();
         clearBufferClears();
         firstErrorOfGoodTexts();
         firstErrorOfBadTexts();
         everyCharacterInEveryPlace();
         loadAddsEntries();
         loadTranslatesAnew();
-        loadRefusesTexts();
-        loadRefusesEntries();
         undoRestores();
         undoSavesEight();
         undoKeepsTheBuffer();
@@ -25,16 +22,6 @@ public final class TextsTest {
             Check.same("append to a length of " + length, desk.append('a'), length);
         }
         Check.same("append is not undoable", desk.count(9), 0);
-    }
-
-    private static void appendRefuses() {
-        ChordDesk desk = new ChordDesk();
-        for (int code : new int[] {32, 127, 0, -1, Integer.MIN_VALUE, Integer.MAX_VALUE}) {
-            Check.failsArgument("append(" + code + ")", desk, () -> desk.append(code));
-        }
-        Check.type(desk, "a".repeat(60));
-        Check.failsState("the 61st character", desk, () -> desk.append('a'));
-        Check.failsArgument("the code comes first", desk, () -> desk.append(32));
     }
 
     private static void clearBufferClears() {
@@ -55,7 +42,6 @@ public final class TextsTest {
         for (String text : good) {
             Check.write(desk, text);
             Check.same("firstError of " + text, desk.firstError(), text.length());
-            Check.keeps("firstError of " + text, desk, desk::firstError);
         }
     }
 
@@ -114,43 +100,8 @@ public final class TextsTest {
         Check.same("open items change", Check.show(desk), "[S] [T] ab:0 c:1");
     }
 
-    private static void loadRefusesTexts() {
-        String[] bad = {"", "S", "S=", "S/", "S=a;", "S=a;T", "S=a;T=", "S=abcdefghi", "TS=a", "S=A", "s=a", "S/S/S/S/S=a",
-            "S=a;;T=b", "=a", "S=a,T=b", "S=a;T=b;"};
-        for (String text : bad) {
-            ChordDesk desk = Check.deskWith("G=g");
-            desk.stroke(1);
-            Check.write(desk, text);
-            Check.failsArgument("load of " + text, desk, desk::load);
-            Check.same("the buffer stays", desk.clearBuffer(), text.length());
-        }
-    }
-
-    private static void loadRefusesEntries() {
-        ChordDesk desk = Check.deskWith("S/T=a");
-        Check.write(desk, "P=b;S/T=c");
-        Check.failsState("load of an outline that is there", desk, desk::load);
-        Check.write(desk, "P=b;T=c;P=d");
-        Check.failsState("load of the same outline twice", desk, desk::load);
-        Check.write(desk, "S/T=x;P=");
-        Check.failsArgument("an incomplete list comes first", desk, desk::load);
-        Check.write(desk, "S=a;T=a;ST/T=a;S/TP=a;T/S=a");
-        Check.same("like outlines and the same word are fine", desk.load(), 6);
-        Check.load(desk, "P=a;H=a;A=a;O=a;E=a;U=a;F=a;R=a;B=a;G=a;SG=a;TG=a;PG=a;HG=a;AG=a;OG=a");
-        Check.same("22 entries", desk.count(4), 22);
-        Check.write(desk, "EG=a;UG=b;FG=c");
-        Check.failsState("load of 25 entries", desk, desk::load);
-        Check.write(desk, "EG=a;UG=b");
-        Check.same("load of 24 entries", desk.load(), 24);
-        Check.write(desk, "FG=c");
-        Check.failsState("load into a full dictionary", desk, desk::load);
-        Check.write(desk, "FG=c;");
-        Check.failsArgument("the text comes first there too", desk, desk::load);
-    }
-
     private static void undoRestores() {
         ChordDesk desk = new ChordDesk();
-        Check.failsState("undo of nothing", desk, desk::undo);
         Check.write(desk, "S=a;T=b;S/T=c");
         desk.load();
         Check.press(desk, "S T P");
@@ -173,7 +124,6 @@ public final class TextsTest {
             Check.same("undo to " + left, desk.undo(), left);
         }
         Check.same("all is as it was new", Check.show(desk) + Check.list(desk), "");
-        Check.failsState("undo of more than there is", desk, desk::undo);
     }
 
     /** What undo restores, as one number. */
@@ -196,7 +146,7 @@ public final class TextsTest {
             Check.same("strokes then", desk.count(0), 12 + left);
             Check.same("the last stroke then", desk.strokeAt(11 + left, 0), 12 + left);
         }
-        Check.failsState("the ninth undo", desk, desk::undo);
+        Check.refused("the ninth undo", desk, "IllegalStateException", ChordDesk::undo);
         desk.stroke(5);
         Check.same("it saves again", desk.undo(), 0);
         Check.same("strokes after all", desk.count(0), 12);

@@ -2,15 +2,11 @@
 public final class WhatThereIsTest {
     public static void main(String[] args) {
         strokeAtTells();
-        strokeAtRefuses();
         itemTells();
-        itemRefuses();
         entryTells();
         clashes();
         entryMakesItems();
-        entryRefuses();
         countTells();
-        countRefuses();
         Check.end("WhatThereIsTest");
     }
 
@@ -27,20 +23,6 @@ public final class WhatThereIsTest {
         Check.same("the item of a fixed stroke", desk.strokeAt(3, 2), 2);
     }
 
-    private static void strokeAtRefuses() {
-        ChordDesk empty = new ChordDesk();
-        Check.failsIndex("strokeAt(0, 0) of nothing", empty, () -> empty.strokeAt(0, 0));
-        ChordDesk desk = new ChordDesk();
-        Check.press(desk, "S T");
-        for (int number : new int[] {-1, 2, Integer.MIN_VALUE, Integer.MAX_VALUE}) {
-            Check.failsIndex("strokeAt(" + number + ", 0)", desk, () -> desk.strokeAt(number, 0));
-            Check.failsIndex("strokeAt(" + number + ", 3)", desk, () -> desk.strokeAt(number, 3));
-        }
-        for (int what : new int[] {-1, 3, Integer.MIN_VALUE, Integer.MAX_VALUE}) {
-            Check.failsArgument("strokeAt(1, " + what + ")", desk, () -> desk.strokeAt(1, what));
-        }
-    }
-
     private static void itemTells() {
         ChordDesk desk = Check.deskWith("T=x;S/T=word");
         Check.press(desk, "S T");
@@ -55,23 +37,6 @@ public final class WhatThereIsTest {
             for (int what = 0; what < due[item].length; what++) {
                 Check.same("item(" + item + ", " + what + ")", desk.item(item, what), due[item][what]);
             }
-            int number = item;
-            int beyond = due[item].length;
-            Check.failsArgument("item behind its text", desk, () -> desk.item(number, beyond));
-        }
-    }
-
-    private static void itemRefuses() {
-        ChordDesk empty = new ChordDesk();
-        Check.failsIndex("item(0, 0) of nothing", empty, () -> empty.item(0, 0));
-        ChordDesk desk = Check.deskWith("S/T=ab");
-        Check.press(desk, "S T P");
-        for (int item : new int[] {-1, 2, Integer.MIN_VALUE, Integer.MAX_VALUE}) {
-            Check.failsIndex("item(" + item + ", 0)", desk, () -> desk.item(item, 0));
-            Check.failsIndex("item(" + item + ", -1)", desk, () -> desk.item(item, -1));
-        }
-        for (int what : new int[] {-1, 7, Integer.MIN_VALUE, Integer.MAX_VALUE}) {
-            Check.failsArgument("item(0, " + what + ")", desk, () -> desk.item(0, what));
         }
     }
 
@@ -135,19 +100,6 @@ public final class WhatThereIsTest {
         Check.same("open items of entry 2", desk.entry(2, 7), 1);
     }
 
-    private static void entryRefuses() {
-        ChordDesk empty = new ChordDesk();
-        Check.failsIndex("entry(0, 0) of nothing", empty, () -> empty.entry(0, 0));
-        ChordDesk desk = Check.deskWith("S=a;T=b");
-        for (int entry : new int[] {-1, 2, Integer.MIN_VALUE, Integer.MAX_VALUE}) {
-            Check.failsIndex("entry(" + entry + ", 0)", desk, () -> desk.entry(entry, 0));
-            Check.failsIndex("entry(" + entry + ", 16)", desk, () -> desk.entry(entry, 16));
-        }
-        for (int what : new int[] {-1, 16, Integer.MIN_VALUE, Integer.MAX_VALUE}) {
-            Check.failsArgument("entry(1, " + what + ")", desk, () -> desk.entry(1, what));
-        }
-    }
-
     private static void countTells() {
         ChordDesk desk = Check.deskWith("S=abc;S/T=de;P=abc");
         Check.press(desk, "S S T HA");
@@ -161,12 +113,5 @@ public final class WhatThereIsTest {
         desk.fixAll();
         Check.same("no open items without an entry", desk.count(7), 0);
         Check.same("no open strokes", desk.count(3), 0);
-    }
-
-    private static void countRefuses() {
-        ChordDesk desk = Check.deskWith("S=a");
-        for (int what : new int[] {-1, 10, Integer.MIN_VALUE, Integer.MAX_VALUE}) {
-            Check.failsArgument("count(" + what + ")", desk, () -> desk.count(what));
-        }
     }
 }

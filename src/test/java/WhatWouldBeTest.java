@@ -3,18 +3,16 @@ public final class WhatWouldBeTest {
     public static void main(String[] args) {
         ifStrokeTells();
         ifStrokeBeyondTheLimit();
-        ifStrokeRefuses();
         ifRemovedTells();
-        ifRemovedRefuses();
         fewestStrokesFinds();
         readsBackTells();
         readsBackTakesTheLowestNumbers();
         theLongestText();
         shortestFinds();
-        shortestRefuses();
         lettersPerStrokeDivides();
         digestOfNumbersKnown();
         digestFollowsTheDocument();
+        digestOfLettersPerStroke();
         Check.end("WhatWouldBeTest");
     }
 
@@ -23,7 +21,6 @@ public final class WhatWouldBeTest {
             Check.same(what + ", ifStroke(" + keys + ", " + number + ")", desk.ifStroke(Check.keys(keys), number),
                 due[number]);
         }
-        Check.keeps(what, desk, () -> desk.ifStroke(Check.keys(keys), 0));
     }
 
     private static void ifStrokeTells() {
@@ -50,17 +47,6 @@ public final class WhatWouldBeTest {
         ifStrokeIs("with 60 strokes", desk, "SP", new int[] {61, 53, 62, 1});
     }
 
-    private static void ifStrokeRefuses() {
-        ChordDesk desk = Check.deskWith("S=a");
-        desk.stroke(1);
-        for (int keys : new int[] {0, -1, 4096, Integer.MIN_VALUE, Integer.MAX_VALUE}) {
-            Check.failsArgument("ifStroke(" + keys + ", 0)", desk, () -> desk.ifStroke(keys, 0));
-        }
-        for (int what : new int[] {-1, 4, Integer.MIN_VALUE, Integer.MAX_VALUE}) {
-            Check.failsArgument("ifStroke(1, " + what + ")", desk, () -> desk.ifStroke(1, what));
-        }
-    }
-
     private static void ifRemovedTells() {
         ChordDesk desk = Check.deskWith("S/T/P=a;S/T=b;T/P/H=c;P=d");
         Check.press(desk, "S T P");
@@ -69,9 +55,7 @@ public final class WhatWouldBeTest {
         Check.same("items", Check.show(desk), "[a] a:0 H");
         int[] due = {3, 2, 2, 2};
         for (int entry = 0; entry < due.length; entry++) {
-            int number = entry;
             Check.same("ifRemoved(" + entry + ")", desk.ifRemoved(entry), due[entry]);
-            Check.keeps("ifRemoved(" + entry + ")", desk, () -> desk.ifRemoved(number));
         }
         desk.removeEntry(1);
         Check.same("without S/T the parts join otherwise", desk.ifRemoved(0), 2);
@@ -80,20 +64,10 @@ public final class WhatWouldBeTest {
         Check.same("without open items", desk.ifRemoved(0), 0);
     }
 
-    private static void ifRemovedRefuses() {
-        ChordDesk desk = Check.deskWith("S=a;T=b");
-        for (int entry : new int[] {-1, 2, Integer.MIN_VALUE, Integer.MAX_VALUE}) {
-            Check.failsIndex("ifRemoved(" + entry + ")", desk, () -> desk.ifRemoved(entry));
-        }
-        ChordDesk empty = new ChordDesk();
-        Check.failsIndex("ifRemoved(0) of nothing", empty, () -> empty.ifRemoved(0));
-    }
-
     private static void fewestIs(String list, String text, int due) {
         ChordDesk desk = Check.deskWith(list);
         Check.write(desk, text);
         Check.same("fewestStrokes of " + text + " with " + list, desk.fewestStrokes(), due);
-        Check.keeps("fewestStrokes of " + text, desk, desk::fewestStrokes);
     }
 
     private static void fewestStrokesFinds() {
@@ -134,7 +108,6 @@ public final class WhatWouldBeTest {
         desk.setWindow(0);
         Check.write(desk, text);
         Check.same("readsBack of " + text + " with " + list, desk.readsBack(), due);
-        Check.keeps("readsBack of " + text, desk, desk::readsBack);
     }
 
     private static void readsBackTells() {
@@ -190,9 +163,7 @@ public final class WhatWouldBeTest {
         ChordDesk desk = Check.deskWith("S/T=a;STPHAOEUFRBG=a;ST=b;P=a;T=a;S=b;S/P=c;HA/T=c;G/O=c;S/T/P=d;ST/PH=d");
         int[] due = {3, 3, 5, 3, 3, 5, 6, 6, 6, 10, 10};
         for (int entry = 0; entry < due.length; entry++) {
-            int number = entry;
             Check.same("shortest(" + entry + ")", desk.shortest(entry), due[entry]);
-            Check.keeps("shortest(" + entry + ")", desk, () -> desk.shortest(number));
         }
         ChordDesk first = Check.deskWith("S=a;T=a;S/T=a");
         for (int entry = 0; entry < 3; entry++) {
@@ -201,15 +172,6 @@ public final class WhatWouldBeTest {
         ChordDesk keys = Check.deskWith("STP/H=a;S/TPH=a;ST/P=a;P/ST=a");
         Check.same("the fewest keys together", keys.shortest(0), 2);
         Check.same("of several the lowest number", keys.shortest(3), 2);
-    }
-
-    private static void shortestRefuses() {
-        ChordDesk desk = Check.deskWith("S=a;T=b");
-        for (int entry : new int[] {-1, 2, Integer.MIN_VALUE, Integer.MAX_VALUE}) {
-            Check.failsIndex("shortest(" + entry + ")", desk, () -> desk.shortest(entry));
-        }
-        ChordDesk empty = new ChordDesk();
-        Check.failsIndex("shortest(0) of nothing", empty, () -> empty.shortest(0));
     }
 
     private static void lettersPerStrokeDivides() {
@@ -240,32 +202,39 @@ public final class WhatWouldBeTest {
     private static final long NEW_DIGEST = -8434513455649893962L;
     private static final long STROKE_DIGEST = -5446214956486652112L;
 
+    private static ChordDesk pressed(String list, String strokes, String text) {
+        ChordDesk desk = Check.deskWith(list);
+        Check.press(desk, strokes);
+        Check.write(desk, text);
+        return desk;
+    }
+
+    private static void digestIs(String list, String strokes, String text) {
+        Check.same("digest of " + list + ", " + strokes + ", " + text, pressed(list, strokes, text).digest(),
+            Whole.digestDue(() -> pressed(list, strokes, text), text));
+    }
+
     private static void digestFollowsTheDocument() {
-        ChordDesk desk = Check.deskWith("S=abc;S/T=de;P=abc;STPHAOEUFRBG/G=abcdefgh");
-        Check.same("digest with entries", desk.digest(), PlainDesk.digestOf(desk, ""));
-        String strokes = "S T P HA G S S T STPHAOEUFRBG G T T P";
-        for (String stroke : strokes.split(" ")) {
-            Check.press(desk, stroke);
-            Check.same("digest after " + stroke, desk.digest(), PlainDesk.digestOf(desk, ""));
+        String list = "S=abc;S/T=de;P=abc;STPHAOEUFRBG/G=abcdefgh";
+        StringBuilder strokes = new StringBuilder("S");
+        for (String stroke : "S T P HA G S S T STPHAOEUFRBG G T T P".split(" ")) {
+            strokes.append(' ').append(stroke);
+            digestIs(list, strokes.toString(), "");
         }
-        digestOfLettersPerStroke();
         for (String text : new String[] {"abcde", "abcdx", "~!", "abcdefghabc"}) {
-            Check.write(desk, text);
-            Check.same("digest with " + text, desk.digest(), PlainDesk.digestOf(desk, text));
-            Check.keeps("digest with " + text, desk, desk::digest);
+            digestIs(list, strokes.toString(), text);
         }
     }
 
     /** The digest has the bits of a double: below 1, at 1 and between, a power of two, and behind it. */
     private static void digestOfLettersPerStroke() {
-        ChordDesk desk = Check.deskWith("S/S/S/S=a;T/T/T=a;P/P=a;A/A/A=ab;O/O/O/O=abc;E/E=abc");
+        String list = "S/S/S/S=a;T/T/T=a;P/P=a;A/A/A=ab;O/O/O/O=abc;E/E=abc";
+        StringBuilder all = new StringBuilder("G");
         for (String strokes : new String[] {"S S S S", "T T T", "P P", "A A A", "O O O O", "H", "E E", "ST", "STP", "STPH",
             "STPHAOEUFRB", "STPHAOEUFRBG"}) {
-            Check.press(desk, strokes);
-            Check.same("digest after " + strokes, desk.digest(), PlainDesk.digestOf(desk, ""));
-            ChordDesk alone = Check.deskWith(Check.list(desk));
-            Check.press(alone, strokes);
-            Check.same("digest of " + strokes, alone.digest(), PlainDesk.digestOf(alone, ""));
+            all.append(' ').append(strokes);
+            digestIs(list, strokes, "");
+            digestIs(list, all.toString(), "");
         }
     }
 }
