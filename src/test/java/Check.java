@@ -160,6 +160,29 @@ final class Check {
         return text.toString();
     }
 
+    /** The clashes of a list's entries, a digit each, and how many there are. */
+    static void clashesAre(String list, String due) {
+        ChordDesk desk = deskWith(list);
+        StringBuilder got = new StringBuilder();
+        for (int entry = 0; entry < desk.count(4); entry++) {
+            got.append(desk.entry(entry, 6));
+        }
+        same("clashes of " + list, got.toString(), due);
+        same("entries with a clash in " + list, desk.count(8), due.replace("0", "").length());
+    }
+
+    static void fewestIs(String list, String text, int due) {
+        ChordDesk desk = deskWith(list);
+        write(desk, text);
+        same("fewestStrokes of " + text + " with " + list, desk.fewestStrokes(), due);
+    }
+
+    static void readsBackIs(String list, String text, int due) {
+        ChordDesk desk = deskWith(list);
+        write(desk, text);
+        same("readsBack of " + text + " with " + list, desk.readsBack(), due);
+    }
+
     static void end(String test) {
         System.out.println(test + ": " + right + " answers as due, " + wrong + " not");
         if (wrong != 0 || right == 0) {

@@ -5,7 +5,6 @@ final class Desks {
     static final int MOST_STROKES = 60;
     static final int MOST_ENTRIES = 24;
     static final int MOST_CHARACTERS = 60;
-    static final int MOST_SAVED = 8;
     /** Thirteen entries in one buffer, none of them in withEntries. */
     static final String THIRTEEN = "A=a;O=a;E=a;U=a;F=a;R=a;B=a;G=a;AO=a;AE=a;AU=a;AF=a;AR=a";
 
@@ -16,7 +15,7 @@ final class Desks {
         return new ChordDesk();
     }
 
-    /** Fixed and open items, with and without an entry; seven saved states, so that one more shows; a text that can be written. */
+    /** Fixed and open items, with and without an entry; a text that can be written; seven saved states, so one more shows. */
     static ChordDesk some() {
         ChordDesk desk = loaded("S=ab;T=c;S/T/P=defghijk;P=ab");
         desk.setWindow(3);

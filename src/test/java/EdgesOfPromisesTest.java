@@ -57,8 +57,8 @@ public final class EdgesOfPromisesTest {
         Check.same("no letters", new ChordDesk().lettersPerStroke(), 0.0);
         Check.same("the window of eight", new ChordDesk().setWindow(8), 8);
         ChordDesk used = Desks.full();
-        Check.sameWhole("a desk made beside a full one", ChordDesk::new, ChordDesk::new);
         Check.same("the full one is full", used.count(0), 60);
+        Check.same("one made beside it has nothing of it", new ChordDesk().digest(), -8434513455649893962L);
     }
 
     // "keys: 1 to 4095"; "Returns the number of items then."
@@ -153,6 +153,11 @@ public final class EdgesOfPromisesTest {
         Check.same("none is left", first.count(4), 0);
         Check.refused("of none", first, INDEX, desk -> desk.removeEntry(0));
         Check.same("without items", Desks.loaded("S=a").removeEntry(0), 0);
+        ChordDesk last = Desks.loaded("S=a;S/T=b");
+        last.removeEntry(1);
+        Check.press(last, "S T");
+        shows("strokes that come after the last one went", last, "a:0 T");
+        Check.same("learn of its outline", last.learn(0, 1), 1);
         ChordDesk fixed = Desks.pressed("S/T=ab", "S T");
         fixed.fixAll();
         Check.press(fixed, "S T");

@@ -17,6 +17,7 @@ public final class EdgesOfTextsTest {
         anotherEntryWithTheSameWord();
         theFirstThatHolds();
         clashesGoWithTheirEntries();
+        removedEntriesLeaveNoClash();
         at60Characters();
         oneOrMoreEntries();
         listsOfAnyLength();
@@ -32,103 +33,93 @@ public final class EdgesOfTextsTest {
         Check.end("EdgesOfTextsTest");
     }
 
-    private static void clashesAre(String list, String due) {
-        ChordDesk desk = Check.deskWith(list);
-        StringBuilder got = new StringBuilder();
-        for (int entry = 0; entry < desk.count(4); entry++) {
-            got.append(desk.entry(entry, 6));
-        }
-        Check.same("clashes of " + list, got.toString(), due);
-        Check.same("entries with a clash in " + list, desk.count(8), due.replace("0", "").length());
-    }
-
     // "otherwise it is 0"
     private static void noClash() {
         Check.same("no entries, no clashes", new ChordDesk().count(8), 0);
-        clashesAre("S=a", "0");
-        clashesAre("S/S/S/S=a", "0");
-        clashesAre("S=a;T=b;P/H=c;P/A=d;H/P=e", "00000");
-        clashesAre("S=a;ST=b;T/S=c", "000");
-        clashesAre("S=aa;T=a;P=aaa", "000");
-        clashesAre("S=abcdefgh;T=abcdefgi", "00");
+        Check.clashesAre("S=a", "0");
+        Check.clashesAre("S/S/S/S=a", "0");
+        Check.clashesAre("S=a;T=b;P/H=c;P/A=d;H/P=e", "00000");
+        Check.clashesAre("S=a;ST=b;T/S=c", "000");
+        Check.clashesAre("S=aa;T=a;P=aaa", "000");
+        Check.clashesAre("S=abcdefgh;T=abcdefgi", "00");
     }
 
     // "1: its outline is the beginning of a longer outline"
     private static void beginningOfALongerOutline() {
-        clashesAre("S=a;S/T=b", "13");
-        clashesAre("S=a;S/T/P/H=b", "13");
-        clashesAre("S/T=a;S/T/P=b", "13");
-        clashesAre("S/T/P=a;S/T/P/H=b", "13");
-        clashesAre("S/T/P/H=b;S/T/P=a", "31");
-        clashesAre("T=a;S/T=b", "00");
-        clashesAre("S/P=a;S/T/P=b", "00");
-        clashesAre("S/T=a;S/P=b", "00");
-        clashesAre("S=a;ST/T=b", "00");
+        Check.clashesAre("S=a;S/T=b", "13");
+        Check.clashesAre("S=a;S/T/P/H=b", "13");
+        Check.clashesAre("S/T=a;S/T/P=b", "13");
+        Check.clashesAre("S/T/P=a;S/T/P/H=b", "13");
+        Check.clashesAre("S/T/P/H=b;S/T/P=a", "31");
+        Check.clashesAre("T=a;S/T=b", "00");
+        Check.clashesAre("S/P=a;S/T/P=b", "00");
+        Check.clashesAre("S/T=a;S/P=b", "00");
+        Check.clashesAre("S=a;ST/T=b", "00");
     }
 
     // "2: the outline is that of two entries (perhaps the same one twice), one behind the other"
     private static void outlineOfTwoEntries() {
-        clashesAre("S=a;T=b;S/T=c", "102");
-        clashesAre("S/T=c;T=b;S=a", "201");
-        clashesAre("S=a;T/P=b;S/T/P=c", "102");
-        clashesAre("S/T=a;P=b;S/T/P=c", "102");
-        clashesAre("S=a;T/P/H=b;S/T/P/H=c", "102");
-        clashesAre("S/T=a;P/H=b;S/T/P/H=c", "102");
-        clashesAre("S/T/P=a;H=b;S/T/P/H=c", "102");
+        Check.clashesAre("S=a;T=b;S/T=c", "102");
+        Check.clashesAre("S/T=c;T=b;S=a", "201");
+        Check.clashesAre("S=a;T/P=b;S/T/P=c", "102");
+        Check.clashesAre("S/T=a;P=b;S/T/P=c", "102");
+        Check.clashesAre("S=a;T/P/H=b;S/T/P/H=c", "102");
+        Check.clashesAre("S/T=a;P/H=b;S/T/P/H=c", "102");
+        Check.clashesAre("S/T/P=a;H=b;S/T/P/H=c", "102");
         // One of the two parts is missing, or they stand the other way round.
-        clashesAre("S=a;S/T=c", "13");
-        clashesAre("T=b;S/T=c", "00");
-        clashesAre("T=a;S=b;P=d;S/T/P=c", "0103");
-        clashesAre("S/T=a;H/P=b;S/T/P/H=c", "103");
-        clashesAre("S=a;P=b;S/T=c", "103");
+        Check.clashesAre("S=a;S/T=c", "13");
+        Check.clashesAre("T=b;S/T=c", "00");
+        Check.clashesAre("T=a;S=b;P=d;S/T/P=c", "0103");
+        Check.clashesAre("S/T=a;H/P=b;S/T/P/H=c", "103");
+        Check.clashesAre("S=a;P=b;S/T=c", "103");
     }
 
     private static void outlineOfTheSameEntryTwice() {
-        clashesAre("S=a;S/S=c", "12");
-        clashesAre("S/T=a;S/T/S/T=c", "12");
-        clashesAre("S/T=a;S/T/T/S=c", "13");
-        clashesAre("S=a;S/S/S=c", "13");
+        Check.clashesAre("S=a;S/S=c", "12");
+        Check.clashesAre("S/T=a;S/T/S/T=c", "12");
+        Check.clashesAre("S/T=a;S/T/T/S=c", "13");
+        Check.clashesAre("S=a;S/S/S=c", "13");
     }
 
     private static void outlineOfThreeEntriesIsNone() {
-        clashesAre("S=a;T=b;P=d;S/T/P=c", "1003");
-        clashesAre("S=a;T=b;P=d;H=e;S/T/P/H=c", "10003");
-        clashesAre("S=a;T=b;P/H=d;S/T/P/H=c", "1003");
-        clashesAre("S=a;S/S/S/S=c", "13");
+        Check.clashesAre("S=a;T=b;P=d;S/T/P=c", "1003");
+        Check.clashesAre("S=a;T=b;P=d;H=e;S/T/P/H=c", "10003");
+        Check.clashesAre("S=a;T=b;P/H=d;S/T/P/H=c", "1003");
+        Check.clashesAre("S=a;S/S/S/S=c", "13");
     }
 
     // "3: it begins with another (shorter) outline"
     private static void beginningWithAShorterOutline() {
-        clashesAre("S/T/P/H=b;S=a", "31");
-        clashesAre("S/T/P/H=b;S/T=a", "31");
-        clashesAre("S/T/P/H=b;S/T/P=a", "31");
-        clashesAre("S/T/P/H=b;H=a;P/H=c;T/P/H=d", "0000");
-        clashesAre("S/S=b;S=a", "21");
+        Check.clashesAre("S/T/P/H=b;S=a", "31");
+        Check.clashesAre("S/T/P/H=b;S/T=a", "31");
+        Check.clashesAre("S/T/P/H=b;S/T/P=a", "31");
+        Check.clashesAre("S/T/P/H=b;H=a;P/H=c;T/P/H=d", "0000");
+        Check.clashesAre("S/S=b;S=a", "21");
     }
 
     // "4: another entry has the same word"
     private static void anotherEntryWithTheSameWord() {
-        clashesAre("S=a;T=a", "44");
-        clashesAre("S=a;T=b;P=a", "404");
-        clashesAre("S=abcdefgh;T=abcdefgh", "44");
-        clashesAre("S=ab;T=a;P=ba;H=ab", "4004");
-        clashesAre("S=a;T=a;P=a", "444");
+        Check.clashesAre("S=a;T=a", "44");
+        Check.clashesAre("S=a;T=b;P=a", "404");
+        Check.clashesAre("S=abcdefgh;T=abcdefgh", "44");
+        Check.clashesAre("S=ab;T=a;P=ba;H=ab", "4004");
+        Check.clashesAre("S=a;T=a;P=a", "444");
     }
 
     // "The clash of an entry is the first of these that holds"
     private static void theFirstThatHolds() {
         // S/T is the beginning of S/T/P, two entries, begins with S, and has S's word.
-        clashesAre("S=a;T=b;S/T=a;S/T/P=c", "1013");
-        clashesAre("S=a;S/S=a;S/S/S=c", "112");
+        Check.clashesAre("S=a;T=b;S/T=a;S/T/P=c", "1013");
+        Check.clashesAre("S=a;S/S=a;S/S/S=c", "112");
         // S/T is two entries, begins with S, and has S's word.
-        clashesAre("S=a;T=b;S/T=a", "102");
+        Check.clashesAre("S=a;T=b;S/T=a", "102");
         // S/T begins with S, and has S's word.
-        clashesAre("S=a;S/T=a", "13");
-        clashesAre("P=b;S/T=b;S=a", "431");
+        Check.clashesAre("S=a;S/T=a", "13");
+        Check.clashesAre("P=b;S/T=b;S=a", "431");
         // S/T is the beginning of S/T/P, and begins with S.
-        clashesAre("S=a;S/T=b;S/T/P=c", "113");
+        Check.clashesAre("S=a;S/T=b;S/T/P=c", "113");
         // S has T's word, and is the beginning of S/P.
-        clashesAre("S=a;T=a;S/P=b", "143");
+        Check.clashesAre("S=a;T=a;S/P=b", "143");
     }
 
     private static void clashesGoWithTheirEntries() {
@@ -141,6 +132,27 @@ public final class EdgesOfTextsTest {
         Check.same("no clashes", desk.count(8), 0);
         desk.undo();
         Check.same("again two", desk.count(8), 2);
+    }
+
+    private static void clashWithoutTheLast(String list, int entry, int due) {
+        ChordDesk desk = Check.deskWith(list);
+        desk.removeEntry(desk.count(4) - 1);
+        Check.same("clash of " + entry + " in " + list + " without the last", desk.entry(entry, 6), due);
+    }
+
+    /** What was in the dictionary's last place is not looked at any more. */
+    private static void removedEntriesLeaveNoClash() {
+        clashWithoutTheLast("S=a;S/T=b", 0, 0);
+        clashWithoutTheLast("S=a;S/S/T=c;S/T=b", 1, 3);
+        clashWithoutTheLast("S=a;S/T=c;T=b", 1, 3);
+        clashWithoutTheLast("S/T=c;T=b;S=a", 0, 0);
+        clashWithoutTheLast("S/T=c;S=a", 0, 0);
+        clashWithoutTheLast("S=a;T=a", 0, 0);
+        clashWithoutTheLast("S=a;T=b;P=a", 0, 0);
+        ChordDesk undone = Desks.loaded("S=a");
+        Check.load(undone, "S/T=b");
+        undone.undo();
+        Check.same("a load that was undone", undone.entry(0, 6) + " " + undone.count(8), "0 0");
     }
 
     // "The buffer has at most 60 characters."

@@ -15,6 +15,7 @@ public final class EdgesOfWhatWouldBeTest {
         promise20FullBuffer();
         promise20WithoutGaps();
         promise20Fewest();
+        promise20OneTextAfterAnother();
         promise21EmptyBuffer();
         promise21FullBuffer();
         promise21ReadBack();
@@ -118,14 +119,10 @@ public final class EdgesOfWhatWouldBeTest {
         return Desks.withText(() -> Check.deskWith(list), text).get();
     }
 
-    private static void fewestIs(String list, String text, int due) {
-        Check.same("fewestStrokes of " + text + " with " + list, writing(list, text).fewestStrokes(), due);
-    }
-
     // "(an empty buffer: 0)"
     private static void promise20EmptyBuffer() {
         Check.same("without entries", new ChordDesk().fewestStrokes(), 0);
-        fewestIs("S=a", "", 0);
+        Check.fewestIs("S=a", "", 0);
         ChordDesk cleared = writing("S=a", "aa");
         cleared.clearBuffer();
         Check.same("cleared", cleared.fewestStrokes(), 0);
@@ -134,51 +131,65 @@ public final class EdgesOfWhatWouldBeTest {
     }
 
     private static void promise20FullBuffer() {
-        fewestIs("S=a", "a".repeat(60), 60);
-        fewestIs("S/T/P/H=a", "a".repeat(60), 240);
-        fewestIs("S=abcdefgh;T=abcd", "abcdefgh".repeat(7) + "abcd", 8);
-        fewestIs("S=a", "a".repeat(59) + "b", -1);
-        fewestIs("S=a", "b" + "a".repeat(59), -1);
-        fewestIs("S=abcdefgh", "abcdefgh".repeat(7) + "abcd", -1);
+        Check.fewestIs("S=a", "a".repeat(60), 60);
+        Check.fewestIs("S/T/P/H=a", "a".repeat(60), 240);
+        Check.fewestIs("S=abcdefgh;T=abcd", "abcdefgh".repeat(7) + "abcd", 8);
+        Check.fewestIs("S=a", "a".repeat(59) + "b", -1);
+        Check.fewestIs("S=a", "b" + "a".repeat(59), -1);
+        Check.fewestIs("S=abcdefgh", "abcdefgh".repeat(7) + "abcd", -1);
         Check.same("with 24 entries", Desks.full().fewestStrokes(), 60);
     }
 
     // "written as words of the dictionary, one behind the other without gaps"; "NONE if it cannot be written"
     private static void promise20WithoutGaps() {
-        fewestIs("S=ab", "ab", 1);
-        fewestIs("S=ab", "a", -1);
-        fewestIs("S=ab", "b", -1);
-        fewestIs("S=ab", "abc", -1);
-        fewestIs("S=ab", "xab", -1);
-        fewestIs("S=ab;T=cd", "abxcd", -1);
-        fewestIs("S=ab;T=cd", "abcd", 2);
-        fewestIs("S=ab;T=bc", "abc", -1);
-        fewestIs("S=ab;T=bc", "abbc", 2);
-        fewestIs("S=s", "S", -1);
+        Check.fewestIs("S=ab", "ab", 1);
+        Check.fewestIs("S=ab", "a", -1);
+        Check.fewestIs("S=ab", "b", -1);
+        Check.fewestIs("S=ab", "abc", -1);
+        Check.fewestIs("S=ab", "xab", -1);
+        Check.fewestIs("S=ab;T=cd", "abxcd", -1);
+        Check.fewestIs("S=ab;T=cd", "abcd", 2);
+        Check.fewestIs("S=ab;T=bc", "abc", -1);
+        Check.fewestIs("S=ab;T=bc", "abbc", 2);
+        Check.fewestIs("S=s", "S", -1);
         for (String sign : new String[] {"!", "~", ";", "/", "=", "A"}) {
-            fewestIs("S=a", sign, -1);
-            fewestIs("S=a", "a" + sign, -1);
+            Check.fewestIs("S=a", sign, -1);
+            Check.fewestIs("S=a", "a" + sign, -1);
         }
     }
 
     private static void promise20Fewest() {
-        fewestIs("S/T=a;P=a", "a", 1);
-        fewestIs("P=a;S/T=a", "a", 1);
-        fewestIs("S=a;T=b;S/T/P=ab", "ab", 2);
-        fewestIs("S=a;T=b;S/T=ab", "ab", 2);
-        fewestIs("S=a;T=b;H=ab", "ab", 1);
-        fewestIs("S=aaaaaaaa;T=a", "aaaaaaaaa", 2);
-        fewestIs("S=ab;T=c;P=a;H=bcdefghi", "abcdefghi", 2);
+        Check.fewestIs("S/T=a;P=a", "a", 1);
+        Check.fewestIs("P=a;S/T=a", "a", 1);
+        Check.fewestIs("S=a;T=b;S/T/P=ab", "ab", 2);
+        Check.fewestIs("S=a;T=b;S/T=ab", "ab", 2);
+        Check.fewestIs("S=a;T=b;H=ab", "ab", 1);
+        Check.fewestIs("S=aaaaaaaa;T=a", "aaaaaaaaa", 2);
+        Check.fewestIs("S=ab;T=c;P=a;H=bcdefghi", "abcdefghi", 2);
     }
 
-    private static void readsBackIs(String list, String text, int due) {
-        Check.same("readsBack of " + text + " with " + list, writing(list, text).readsBack(), due);
+    /** A text has nothing of the text before it, whether that was longer or shorter. */
+    private static void promise20OneTextAfterAnother() {
+        ChordDesk desk = Check.deskWith("S/T=a;P=abc;H=bc");
+        String[] texts = {"abc", "ab", "a", "abca", "", "aa", "bc", "b", "abcabcabc", "ab", "aaa", "a"};
+        int[] due = {1, -1, 2, 3, 0, 4, 1, -1, 3, -1, 6, 2};
+        for (int number = 0; number < texts.length; number++) {
+            Check.write(desk, texts[number]);
+            Check.same("fewestStrokes of " + texts[number] + " behind others", desk.fewestStrokes(), due[number]);
+            Check.same("readsBack of it", desk.readsBack(), due[number] < 0 ? -1 : 1);
+        }
+        ChordDesk gone = Check.deskWith("S/T=a;P=a");
+        Check.write(gone, "a");
+        gone.removeEntry(1);
+        Check.same("without an entry that went", gone.fewestStrokes(), 2);
+        gone.removeEntry(0);
+        Check.same("without any", gone.fewestStrokes() + " " + gone.readsBack(), "-1 -1");
     }
 
     // "Returns 1 if they do (also if the buffer is empty), 0 if they give another text; NONE if they cannot be written."
     private static void promise21EmptyBuffer() {
         Check.same("without entries", new ChordDesk().readsBack(), 1);
-        readsBackIs("S=a", "", 1);
+        Check.readsBackIs("S=a", "", 1);
         Check.same("without entries, but with a character",
             Desks.withText(Desks::empty, "a").get().readsBack(), ChordDesk.NONE);
         ChordDesk cleared = writing("S=a;T=b;S/T=c", "ab");
@@ -188,50 +199,50 @@ public final class EdgesOfWhatWouldBeTest {
     }
 
     private static void promise21FullBuffer() {
-        readsBackIs("S=a", "a".repeat(60), 1);
-        readsBackIs("S/T/P/H=a", "a".repeat(60), 1);
-        readsBackIs("S=a", "a".repeat(59) + "b", -1);
-        readsBackIs("S=a;T=b;S/T=x", "a".repeat(59) + "b", 0);
-        readsBackIs("S=a;T=b;S/T=x", "b" + "a".repeat(59), 1);
-        readsBackIs("S/T/P/H=a;H/S/T/P=b;H=c", "a".repeat(60), 1);
+        Check.readsBackIs("S=a", "a".repeat(60), 1);
+        Check.readsBackIs("S/T/P/H=a", "a".repeat(60), 1);
+        Check.readsBackIs("S=a", "a".repeat(59) + "b", -1);
+        Check.readsBackIs("S=a;T=b;S/T=x", "a".repeat(59) + "b", 0);
+        Check.readsBackIs("S=a;T=b;S/T=x", "b" + "a".repeat(59), 1);
+        Check.readsBackIs("S/T/P/H=a;H/S/T/P=b;H=c", "a".repeat(60), 1);
         Check.same("with 24 entries", Desks.full().readsBack(), 1);
     }
 
     private static void promise21ReadBack() {
-        readsBackIs("S=a;T=b;S/T=x", "ab", 0);
-        readsBackIs("S=a;T=b;S/T=ab", "ab", 1);
+        Check.readsBackIs("S=a;T=b;S/T=x", "ab", 0);
+        Check.readsBackIs("S=a;T=b;S/T=ab", "ab", 1);
         // Read as other items, but as the same text.
-        readsBackIs("S=a;T=bc;S/T=abc", "abc", 1);
-        readsBackIs("S/T=a;P/H=b;S/T/P=ab", "ab", 1);
-        readsBackIs("S/T=a;P/H=b;S/T/P=ac", "ab", 0);
-        readsBackIs("S/T=a;P=b;H=c;S/T/P=ab;P/H=x", "abc", 1);
-        readsBackIs("S/T=a;P/H=b;S/T/P=a;H=b", "ab", 1);
+        Check.readsBackIs("S=a;T=bc;S/T=abc", "abc", 1);
+        Check.readsBackIs("S/T=a;P/H=b;S/T/P=ab", "ab", 1);
+        Check.readsBackIs("S/T=a;P/H=b;S/T/P=ac", "ab", 0);
+        Check.readsBackIs("S/T=a;P=b;H=c;S/T/P=ab;P/H=x", "abc", 1);
+        Check.readsBackIs("S/T=a;P/H=b;S/T/P=a;H=b", "ab", 1);
         // Shorter and longer texts that begin alike.
-        readsBackIs("S=a;T=b;S/T=a", "ab", 0);
-        readsBackIs("S=a;T=b;S/T=abc", "ab", 0);
-        readsBackIs("S=a;S/S=a", "aa", 0);
-        readsBackIs("S=a;S/S=a", "a", 1);
-        readsBackIs("S=ab;T=c", "abx", -1);
+        Check.readsBackIs("S=a;T=b;S/T=a", "ab", 0);
+        Check.readsBackIs("S=a;T=b;S/T=abc", "ab", 0);
+        Check.readsBackIs("S=a;S/S=a", "aa", 0);
+        Check.readsBackIs("S=a;S/S=a", "a", 1);
+        Check.readsBackIs("S=ab;T=c", "abx", -1);
         // A stroke that is left alone gives its letters, not small ones.
-        readsBackIs("S/T=s;P/H=h;S/T/P=s", "sh", 0);
+        Check.readsBackIs("S/T=s;P/H=h;S/T/P=s", "sh", 0);
     }
 
     // "(of several ways that in which the first entry has the lowest number, then the second, and so on)"
     private static void promise21LowestNumbers() {
-        readsBackIs("S=a;H=a;T=b;S/T=x", "ab", 0);
-        readsBackIs("H=a;S=a;T=b;S/T=x", "ab", 1);
-        readsBackIs("S=a;T=b;H=b;S/T=x", "ab", 0);
-        readsBackIs("S=a;H=b;T=b;S/T=x", "ab", 1);
-        readsBackIs("S=a;T=b;P=c;H=c;T/P=x", "abc", 0);
-        readsBackIs("S=a;T=b;H=c;P=c;T/P=x", "abc", 1);
+        Check.readsBackIs("S=a;H=a;T=b;S/T=x", "ab", 0);
+        Check.readsBackIs("H=a;S=a;T=b;S/T=x", "ab", 1);
+        Check.readsBackIs("S=a;T=b;H=b;S/T=x", "ab", 0);
+        Check.readsBackIs("S=a;H=b;T=b;S/T=x", "ab", 1);
+        Check.readsBackIs("S=a;T=b;P=c;H=c;T/P=x", "abc", 0);
+        Check.readsBackIs("S=a;T=b;H=c;P=c;T/P=x", "abc", 1);
         // The first entry decides before the second, though the other way's second has a lower number.
-        readsBackIs("T=b;S=a;P=ab;H=c;A=bc;S/A=x", "abc", 0);
-        readsBackIs("T=b;P=ab;S=a;H=c;A=bc;S/A=x", "abc", 1);
-        readsBackIs("A=bc;S=a;P=ab;T=c;P/T=x", "abc", 1);
-        readsBackIs("A=bc;P=ab;S=a;T=c;P/T=x", "abc", 0);
+        Check.readsBackIs("T=b;S=a;P=ab;H=c;A=bc;S/A=x", "abc", 0);
+        Check.readsBackIs("T=b;P=ab;S=a;H=c;A=bc;S/A=x", "abc", 1);
+        Check.readsBackIs("A=bc;S=a;P=ab;T=c;P/T=x", "abc", 1);
+        Check.readsBackIs("A=bc;P=ab;S=a;T=c;P/T=x", "abc", 0);
         // Fewer strokes come before lower numbers.
-        readsBackIs("S/T=a;H=a;P=b;S/T/P=x", "ab", 1);
-        readsBackIs("S/T=a;H/A=a;P=b;S/T/P=x", "ab", 0);
+        Check.readsBackIs("S/T=a;H=a;P=b;S/T/P=x", "ab", 1);
+        Check.readsBackIs("S/T=a;H/A=a;P=b;S/T/P=x", "ab", 0);
     }
 
     // "translated from the first stroke on with no window"
@@ -278,6 +289,9 @@ public final class EdgesOfWhatWouldBeTest {
         Check.same("the last as the first", full.shortest(23), 0);
         full.renameEntry(0, 22);
         Check.same("alone with its word", full.shortest(23), 23);
+        ChordDesk gone = Check.deskWith("S/T=a;S=a");
+        gone.removeEntry(1);
+        Check.same("without a shorter one that went", gone.shortest(0), 0);
         Check.same("the lowest of two", full.shortest(22), 0);
     }
 
@@ -318,6 +332,11 @@ public final class EdgesOfWhatWouldBeTest {
         Check.same("of some", Desks.some().digest(), Whole.digestDue(Desks::some, "abc"));
         Check.same("of fixed", Desks.fixed().digest(), Whole.digestDue(Desks::fixed, ""));
         Check.same("of a full desk", Desks.full().digest(), Whole.digestDue(Desks::full, "s".repeat(60)));
+        String list = "S/S/S/S=a;T/T/T=a;P/P=a";
+        for (String strokes : new String[] {"S S S S", "T T T", "P P", "T T T S S S S", "H P P", "HA P P", "HAO"}) {
+            Check.same("of letters per stroke of " + strokes, Desks.pressed(list, strokes).digest(),
+                Whole.digestDue(() -> Desks.pressed(list, strokes), ""));
+        }
         ChordDesk asked = Desks.some();
         long first = asked.digest();
         Check.same("asked again", asked.digest(), first);

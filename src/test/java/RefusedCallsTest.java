@@ -256,7 +256,8 @@ public final class RefusedCallsTest {
         for (int what : new int[] {-1, LOWEST, HIGHEST}) {
             refuses("item(1, " + what + ")", Desks::some, ARGUMENT, desk -> desk.item(1, what));
         }
-        refuses("item of twelve letters, 17", () -> Desks.pressed("S=a", "STPHAOEUFRBG"), ARGUMENT, desk -> desk.item(0, 17));
+        refuses("item of twelve letters, 17", () -> Desks.pressed("S=a", "STPHAOEUFRBG"), ARGUMENT,
+            desk -> desk.item(0, 17));
     }
 
     private static void promise16Entry() {

@@ -53,40 +53,28 @@ public final class WhatThereIsTest {
     }
 
     private static void clashes() {
-        clashesAre("S=a", "0");
-        clashesAre("S=a;T=b", "00");
-        clashesAre("S=a;T=a", "44");
-        clashesAre("S=a;S/T=b", "13");
-        clashesAre("S/T=b;S=a", "31");
-        clashesAre("S=a;S/T=a", "13");
-        clashesAre("S=a;T=b;S/T=c", "102");
-        clashesAre("S=a;S/S=c", "12");
-        clashesAre("S=a;T=b;T/S=c", "012");
-        clashesAre("S/T=a;P/H=b;S/T/P/H=c", "102");
-        clashesAre("S/T=a;S/T/S/T=c", "12");
-        clashesAre("S=a;T/P/H=b;S/T/P/H=c", "102");
-        clashesAre("S/T/P=a;H=b;S/T/P/H=c", "102");
-        clashesAre("T/P=a;S/T/P=b", "00");
-        clashesAre("S=a;T=b;P=d;S/T/P=c", "1003");
-        clashesAre("S=a;T=b;S/T=c;S/T/P=d", "1013");
-        clashesAre("S=a;T=b;S/T=c;P=e;S/T/P=d", "10102");
-        clashesAre("S=a;ST=b;STP=c", "000");
-        clashesAre("S/T=a;S/TP=b", "00");
-        clashesAre("S=aa;T=a;P=aa;H=ab", "4040");
-        clashesAre("S=a;S/T=b;P=b", "134");
-        clashesAre("S/T/P/H=a;S/T/P=b;S/T=c;S=d", "3111");
-    }
-
-    private static void clashesAre(String list, String due) {
-        ChordDesk desk = Check.deskWith(list);
-        StringBuilder got = new StringBuilder();
-        int some = 0;
-        for (int entry = 0; entry < desk.count(4); entry++) {
-            got.append(desk.entry(entry, 6));
-            some += due.charAt(entry) == '0' ? 0 : 1;
-        }
-        Check.same("clashes of " + list, got.toString(), due);
-        Check.same("entries with a clash in " + list, desk.count(8), some);
+        Check.clashesAre("S=a", "0");
+        Check.clashesAre("S=a;T=b", "00");
+        Check.clashesAre("S=a;T=a", "44");
+        Check.clashesAre("S=a;S/T=b", "13");
+        Check.clashesAre("S/T=b;S=a", "31");
+        Check.clashesAre("S=a;S/T=a", "13");
+        Check.clashesAre("S=a;T=b;S/T=c", "102");
+        Check.clashesAre("S=a;S/S=c", "12");
+        Check.clashesAre("S=a;T=b;T/S=c", "012");
+        Check.clashesAre("S/T=a;P/H=b;S/T/P/H=c", "102");
+        Check.clashesAre("S/T=a;S/T/S/T=c", "12");
+        Check.clashesAre("S=a;T/P/H=b;S/T/P/H=c", "102");
+        Check.clashesAre("S/T/P=a;H=b;S/T/P/H=c", "102");
+        Check.clashesAre("T/P=a;S/T/P=b", "00");
+        Check.clashesAre("S=a;T=b;P=d;S/T/P=c", "1003");
+        Check.clashesAre("S=a;T=b;S/T=c;S/T/P=d", "1013");
+        Check.clashesAre("S=a;T=b;S/T=c;P=e;S/T/P=d", "10102");
+        Check.clashesAre("S=a;ST=b;STP=c", "000");
+        Check.clashesAre("S/T=a;S/TP=b", "00");
+        Check.clashesAre("S=aa;T=a;P=aa;H=ab", "4040");
+        Check.clashesAre("S=a;S/T=b;P=b", "134");
+        Check.clashesAre("S/T/P/H=a;S/T/P=b;S/T=c;S=d", "3111");
     }
 
     private static void entryMakesItems() {

@@ -64,31 +64,25 @@ public final class WhatWouldBeTest {
         Check.same("without open items", desk.ifRemoved(0), 0);
     }
 
-    private static void fewestIs(String list, String text, int due) {
-        ChordDesk desk = Check.deskWith(list);
-        Check.write(desk, text);
-        Check.same("fewestStrokes of " + text + " with " + list, desk.fewestStrokes(), due);
-    }
-
     private static void fewestStrokesFinds() {
-        fewestIs("S=a", "", 0);
-        fewestIs("S=a", "a", 1);
-        fewestIs("S=a", "aaa", 3);
-        fewestIs("S=a", "ab", -1);
-        fewestIs("S=a", "ba", -1);
-        fewestIs("S=a", "A", -1);
-        fewestIs("S=a", "S", -1);
-        fewestIs("S=ab", "a", -1);
-        fewestIs("S=ab", "aba", -1);
-        fewestIs("S/T/P/H=a;T=ab;P=b", "ab", 1);
-        fewestIs("S/T/P/H=ab;T=a;P=b", "ab", 2);
-        fewestIs("S/T=a;T=aa;P=b", "aaab", 4);
-        fewestIs("S/T=a;T=aa;P=ab", "aaab", 2);
-        fewestIs("S/T/P/H=a;S/T=a", "aa", 4);
-        fewestIs("T=aa;S=aaa", "aaaaa", 2);
-        fewestIs("T=aa;S=aaa", "aaaaaaa", 3);
-        fewestIs("S=abcdefgh;T=abcdefg;P=h", "abcdefghabcdefg", 2);
-        fewestIs("S=a;T=b", "a;b", -1);
+        Check.fewestIs("S=a", "", 0);
+        Check.fewestIs("S=a", "a", 1);
+        Check.fewestIs("S=a", "aaa", 3);
+        Check.fewestIs("S=a", "ab", -1);
+        Check.fewestIs("S=a", "ba", -1);
+        Check.fewestIs("S=a", "A", -1);
+        Check.fewestIs("S=a", "S", -1);
+        Check.fewestIs("S=ab", "a", -1);
+        Check.fewestIs("S=ab", "aba", -1);
+        Check.fewestIs("S/T/P/H=a;T=ab;P=b", "ab", 1);
+        Check.fewestIs("S/T/P/H=ab;T=a;P=b", "ab", 2);
+        Check.fewestIs("S/T=a;T=aa;P=b", "aaab", 4);
+        Check.fewestIs("S/T=a;T=aa;P=ab", "aaab", 2);
+        Check.fewestIs("S/T/P/H=a;S/T=a", "aa", 4);
+        Check.fewestIs("T=aa;S=aaa", "aaaaa", 2);
+        Check.fewestIs("T=aa;S=aaa", "aaaaaaa", 3);
+        Check.fewestIs("S=abcdefgh;T=abcdefg;P=h", "abcdefghabcdefg", 2);
+        Check.fewestIs("S=a;T=b", "a;b", -1);
         ChordDesk desk = Check.deskWith("S/T=ab;P=c;H=b");
         String[] texts = {"ababc", "abab", "xab", "ab", "a", "cabc", "", "b", "cb"};
         int[] due = {5, 4, -1, 2, -1, 4, 0, 1, 2};
@@ -103,46 +97,39 @@ public final class WhatWouldBeTest {
         Check.same("without entries", empty.fewestStrokes(), ChordDesk.NONE);
     }
 
-    private static void readsBackIs(String list, String text, int due) {
-        ChordDesk desk = Check.deskWith(list);
-        desk.setWindow(0);
-        Check.write(desk, text);
-        Check.same("readsBack of " + text + " with " + list, desk.readsBack(), due);
-    }
-
     private static void readsBackTells() {
-        readsBackIs("S=a", "", 1);
-        readsBackIs("S=a", "b", -1);
-        readsBackIs("S=a", "S", -1);
-        readsBackIs("S=a;T=b", "abab", 1);
-        readsBackIs("S=a;T=b;S/T=ab", "ab", 1);
-        readsBackIs("S=a;T=b;S/T=x", "ab", 0);
-        readsBackIs("S=a;T=b;S/T=x", "ba", 1);
-        readsBackIs("S=a;T=b;S/T=a", "ab", 0);
-        readsBackIs("S=a;T=b;S/T=abc", "ab", 0);
-        readsBackIs("S=a;T=b;S/T=abc;P=c", "abc", 1);
-        readsBackIs("S=a;T=b;S/T/P=x;P=d", "ab", 1);
-        readsBackIs("S/T=a;P=b;S/T/P=ab;T=x", "ab", 1);
-        readsBackIs("S/T=a;P/H=b;S/T/P=y", "ab", 0);
-        readsBackIs("S/T=a;P/H=b;S/T/P=y;H=z", "ab", 0);
-        readsBackIs("S/T=ab;P=c;S/T/P=a;H=d", "abc", 0);
-        readsBackIs("S=a;T=b;P=c;S/T=ab;P/S=ca", "abcab", 1);
-        readsBackIs("S=a;T=aa;S/T=aaa;T/S=aaa", "aaaa", 1);
+        Check.readsBackIs("S=a", "", 1);
+        Check.readsBackIs("S=a", "b", -1);
+        Check.readsBackIs("S=a", "S", -1);
+        Check.readsBackIs("S=a;T=b", "abab", 1);
+        Check.readsBackIs("S=a;T=b;S/T=ab", "ab", 1);
+        Check.readsBackIs("S=a;T=b;S/T=x", "ab", 0);
+        Check.readsBackIs("S=a;T=b;S/T=x", "ba", 1);
+        Check.readsBackIs("S=a;T=b;S/T=a", "ab", 0);
+        Check.readsBackIs("S=a;T=b;S/T=abc", "ab", 0);
+        Check.readsBackIs("S=a;T=b;S/T=abc;P=c", "abc", 1);
+        Check.readsBackIs("S=a;T=b;S/T/P=x;P=d", "ab", 1);
+        Check.readsBackIs("S/T=a;P=b;S/T/P=ab;T=x", "ab", 1);
+        Check.readsBackIs("S/T=a;P/H=b;S/T/P=y", "ab", 0);
+        Check.readsBackIs("S/T=a;P/H=b;S/T/P=y;H=z", "ab", 0);
+        Check.readsBackIs("S/T=ab;P=c;S/T/P=a;H=d", "abc", 0);
+        Check.readsBackIs("S=a;T=b;P=c;S/T=ab;P/S=ca", "abcab", 1);
+        Check.readsBackIs("S=a;T=aa;S/T=aaa;T/S=aaa", "aaaa", 1);
     }
 
     private static void readsBackTakesTheLowestNumbers() {
         // Both S and T write "a"; S is followed by P in an outline of its own, T is not.
-        readsBackIs("S=a;T=a;P=b;S/P=x", "ab", 0);
-        readsBackIs("T=a;S=a;P=b;S/P=x", "ab", 1);
+        Check.readsBackIs("S=a;T=a;P=b;S/P=x", "ab", 0);
+        Check.readsBackIs("T=a;S=a;P=b;S/P=x", "ab", 1);
         // "aab" is 0 2 or 1 3 with two strokes each; the first entry decides.
-        readsBackIs("S=a;T=aa;P=ab;H=b;S/P=x", "aab", 0);
-        readsBackIs("T=aa;S=a;P=ab;H=b;S/P=x", "aab", 1);
-        readsBackIs("S=a;T=aa;P=ab;H=b;T/H=x", "aab", 1);
+        Check.readsBackIs("S=a;T=aa;P=ab;H=b;S/P=x", "aab", 0);
+        Check.readsBackIs("T=aa;S=a;P=ab;H=b;S/P=x", "aab", 1);
+        Check.readsBackIs("S=a;T=aa;P=ab;H=b;T/H=x", "aab", 1);
         // The fewest strokes come before the lowest numbers.
-        readsBackIs("S/T=a;T=a;P=b;S/T/P=x", "ab", 1);
+        Check.readsBackIs("S/T=a;T=a;P=b;S/T/P=x", "ab", 1);
         // The second entry decides among ways that begin alike.
-        readsBackIs("S=a;T=b;P=b;S/T=x", "ab", 0);
-        readsBackIs("S=a;P=b;T=b;S/T=x", "ab", 1);
+        Check.readsBackIs("S=a;T=b;P=b;S/T=x", "ab", 0);
+        Check.readsBackIs("S=a;P=b;T=b;S/T=x", "ab", 1);
     }
 
     private static void theLongestText() {
